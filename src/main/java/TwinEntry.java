@@ -826,7 +826,11 @@ public final class TwinEntry {
                 return keyEntry(key);
             }
             if (isFunction(key)) {
-                return keyFunction(key);
+                int failed = workOutFunction(key);
+                if (failed == 0) {
+                    keyFunction();
+                }
+                return failed;
             }
             if (signOrBack || key == 'C' || (key >= 'a' && key <= 't')) {
                 keyNumber(key);
@@ -889,22 +893,6 @@ public final class TwinEntry {
             desk.x.set(number);
         }
 
-        private int keyFunction(int key) {
-            int failed = workOutFunction(key);
-            if (failed != 0) {
-                return failed;
-            }
-            endEntry();
-            if (model == STACK) {
-                desk.last.set(desk.x);
-                desk.lift = true;
-            } else {
-                desk.row.place = HAS;
-            }
-            desk.x.set(outcome);
-            return 0;
-        }
-
         private int workOutFunction(int key) {
             if (key == 'Q') {
                 return arithmetic.root(desk.x, outcome);
@@ -913,6 +901,18 @@ public final class TwinEntry {
                 return arithmetic.combine('*', desk.x, desk.x, outcome);
             }
             return arithmetic.combine('/', one, desk.x, outcome);
+        }
+
+        /** Q, S and I, when their number is worked out. */
+        private void keyFunction() {
+            endEntry();
+            if (model == STACK) {
+                desk.last.set(desk.x);
+                desk.lift = true;
+            } else {
+                desk.row.place = HAS;
+            }
+            desk.x.set(outcome);
         }
 
         /** N, C, B without an entry, a .. j, k .. t. */
@@ -1411,7 +1411,6 @@ public final class TwinEntry {
             }
             if (hasEntry && (beginsEntry(key) || key == 'N')) {
                 emit(key);
-                lastIsEntryKey = true;
                 return 0;
             }
             if (rowKey) {

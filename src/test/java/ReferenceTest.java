@@ -31,7 +31,7 @@ public final class ReferenceTest {
         tested = new TwinEntry();
         reference = new Reference();
         history = "seed " + seed + ":";
-        int kind = seed % 5;
+        int kind = seed % 6;
         if (random.nextInt(3) > 0) {
             randomMode();
         }
@@ -44,8 +44,10 @@ public final class ReferenceTest {
                 programs();
             } else if (kind == 3) {
                 solver();
-            } else {
+            } else if (kind == 4) {
                 translator();
+            } else {
+                arithmetic();
             }
             if (random.nextInt(12) == 0) {
                 anything();
@@ -77,7 +79,7 @@ public final class ReferenceTest {
         } else if (choice < 2) {
             model(random.nextInt(2));
         } else if (choice < 9) {
-            store(random.nextInt(100), programCodes(tested.state(0)));
+            store(random.nextInt(4) == 0 ? 92 : random.nextInt(100), programCodes(tested.state(0)));
         } else if (choice < 14) {
             press(someKeys(random.nextInt(4), tested.state(0)) + (char) (144 + random.nextInt(4)) + "5");
         } else if (choice < 15) {
@@ -127,6 +129,32 @@ public final class ReferenceTest {
             translate();
         } else {
             translate();
+        }
+    }
+
+    /** Two long numbers with exponents that are near each other, so that halves and carries come up. */
+    private void arithmetic() {
+        int power = random.nextInt(5) == 0 ? random.nextInt(199) - 99 : random.nextInt(9) - 4;
+        longNumber(power);
+        press("=");
+        longNumber(random.nextInt(4) == 0 ? -power : power + random.nextInt(29) - 14);
+        press("" + any("+-*/+-QSI"));
+        if (random.nextInt(3) == 0) {
+            press("" + any("QSIL") + any("+-*/"));
+        }
+    }
+
+    private void longNumber(int power) {
+        StringBuilder keys = new StringBuilder();
+        String digits = any("19345") + any("09") + "x";
+        int same = random.nextInt(12);
+        for (int i = 0; i < 12; i++) {
+            keys.append(i == 1 ? "." : "").append(i < same ? digits.charAt(Math.min(i, 1)) : any(i == 11 ? "0554969" : DIGITS));
+        }
+        int limited = Math.max(-99, Math.min(99, power));
+        keys.append(random.nextBoolean() ? "N" : "").append('E').append(limited < 0 ? "N" : "").append(Math.abs(limited));
+        for (int i = 0; i < keys.length(); i += 8) {
+            press(keys.substring(i, Math.min(i + 8, keys.length())));
         }
     }
 
