@@ -463,12 +463,12 @@ public final class TwinEntry {
         private void multiply(Decimal left, Decimal right) {
             long a = Math.abs(left.signed);
             long b = Math.abs(right.signed);
-            long half = TENS[6];
-            long low = (a % half) * (b % half);
-            long middle = (a / half) * (b % half) + (a % half) * (b / half);
+            long million = TENS[6];
+            long low = (a % million) * (b % million);
+            long middle = (a / million) * (b % million) + (a % million) * (b / million);
             minus = left.isBelowZero() != right.isBelowZero();
-            whole = (a / half) * (b / half) * half + middle + low / half;
-            more = low % half != 0;
+            whole = (a / million) * (b / million) * million + middle + low / million;
+            more = low % million != 0;
             unit = left.power + right.power - 16;
         }
 

@@ -294,11 +294,11 @@ public final class PromisesTest {
 
     private static void promise3Lift() {
         TwinEntry t = new TwinEntry();
-        String[] keys = {"5", "=", "W", "C", "D", "B", "L", "C", "N", "C", "a", "C", "k", "C", "Q", "6", ".", "N", "B", "B", "7", "S", "=", "+"};
-        int[] want = {0, 0, 1, 0, 1, 0, 1, 0, 1, 0, 1, 0, 1, 0, 1, 1, 1, 1, 1, 0, 0, 1, 0, 1};
-        for (int i = 0; i < keys.length; i++) {
-            Checks.press(t, keys[i]);
-            due("LIFT behind key " + i + ", " + keys[i], t.state(8), want[i]);
+        String keys = "5=WCDBLCNCaCkCQ6.NBB7S=+";
+        String want = "001010101010101111100101";
+        for (int i = 0; i < keys.length(); i++) {
+            Checks.press(t, keys.substring(i, i + 1));
+            due("LIFT behind key " + i + " of " + keys, t.state(8), want.charAt(i) - '0');
         }
         due("without LIFT X is replaced", stack(keyed("5=6")), " 6 5 0 0 0");
         due("with LIFT X is pushed", stack(keyed("5=W6")), " 6 5 5 0 0");

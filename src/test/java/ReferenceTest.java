@@ -97,7 +97,8 @@ public final class ReferenceTest {
             run(random.nextInt(3) == 0 ? random.nextInt(6) : 200 + random.nextInt(301));
         } else if (choice < 4) {
             String body = FUNCTIONS[random.nextInt(FUNCTIONS.length)];
-            store(random.nextInt(3) * 16, (char) (128 + random.nextInt(2)) + body.substring(0, Math.min(7, body.length())));
+            char label = (char) (128 + random.nextInt(2));
+            store(random.nextInt(3) * 16, label + body.substring(0, Math.min(7, body.length())));
         } else if (choice < 5) {
             store(random.nextInt(93), programCodes(0));
         } else if (choice < 8) {
@@ -127,8 +128,28 @@ public final class ReferenceTest {
                 type(formula.substring(i, Math.min(i + 8, formula.length())));
             }
             translate();
+            sameByOut(formula);
         } else {
             translate();
+        }
+    }
+
+    /** What OUT is for: the stack comes to the same X as the formula, when nothing fails. */
+    private void sameByOut(String formula) {
+        int count = tested.translate();
+        if (formula.length() > 40 || count < 0) {
+            return;
+        }
+        TwinEntry byFormula = new TwinEntry();
+        TwinEntry byStack = new TwinEntry();
+        Checks.press(byFormula, "3k4N=Il5o");
+        Checks.press(byStack, "3k4N=Il5o");
+        byFormula.model(1);
+        byStack.model(0);
+        int faults = Checks.press(byFormula, formula + "=");
+        faults += Checks.press(byStack, "W" + Checks.outKeys(tested, count));
+        if (faults == 0) {
+            Checks.due("X by OUT of " + formula, Checks.number(byStack, 10), Checks.number(byFormula, 10));
         }
     }
 
@@ -146,13 +167,15 @@ public final class ReferenceTest {
 
     private void longNumber(int power) {
         StringBuilder keys = new StringBuilder();
-        String digits = any("19345") + any("09") + "x";
+        String digits = "" + any("19345") + any("09");
         int same = random.nextInt(12);
         for (int i = 0; i < 12; i++) {
-            keys.append(i == 1 ? "." : "").append(i < same ? digits.charAt(Math.min(i, 1)) : any(i == 11 ? "0554969" : DIGITS));
+            char other = any(i == 11 ? "0554969" : DIGITS);
+            keys.append(i == 1 ? "." : "").append(i < same ? digits.charAt(Math.min(i, 1)) : other);
         }
         int limited = Math.max(-99, Math.min(99, power));
-        keys.append(random.nextBoolean() ? "N" : "").append('E').append(limited < 0 ? "N" : "").append(Math.abs(limited));
+        keys.append(random.nextBoolean() ? "N" : "").append('E');
+        keys.append(limited < 0 ? "N" : "").append(Math.abs(limited));
         for (int i = 0; i < keys.length(); i += 8) {
             press(keys.substring(i, Math.min(i + 8, keys.length())));
         }
@@ -268,7 +291,8 @@ public final class ReferenceTest {
         StringBuilder keys = new StringBuilder();
         for (int i = 1 + random.nextInt(4); i > 0; i--) {
             int choice = random.nextInt(30);
-            keys.append(choice == 0 ? any("BCWDLkt= x") : choice < 12 ? any("+-*/(") : choice < 18 ? any("QSIN)") : any("12.EabjN3"));
+            String from = choice == 0 ? "BCWDLkt= x" : choice < 12 ? "+-*/(" : choice < 18 ? "QSIN)" : "12.EabjN3";
+            keys.append(any(from));
         }
         return keys.toString();
     }
@@ -316,7 +340,8 @@ public final class ReferenceTest {
         int at(int i);
     }
 
-    private static String seen(LongView digits, IntView exponent, LongView shown, IntView state, IntView code, IntView out) {
+    private static String seen(
+            LongView digits, IntView exponent, LongView shown, IntView state, IntView code, IntView out) {
         StringBuilder all = new StringBuilder();
         for (int i = -1; i <= 15; i++) {
             int which = i;
