@@ -1,14 +1,35 @@
-/** What the tests share: counting wrong answers, packing keys, reading the line. */
-final class Checks {
+import java.util.Arrays;
+
+/** What the tests share: counting wrong answers, packing keys, making objects, reading what is shown. */
+abstract class Checks {
+    static final Class<IllegalStateException> STATE = IllegalStateException.class;
+    static final Class<IllegalArgumentException> ARGUMENT = IllegalArgumentException.class;
+    static final Class<IndexOutOfBoundsException> INDEX = IndexOutOfBoundsException.class;
+    static final Class<UnsupportedOperationException> UNSUPPORTED = UnsupportedOperationException.class;
+
+    static final int X = 10;
+    static final int Y = 11;
+    static final int Z = 12;
+    static final int T = 13;
+    static final int LAST = 14;
+
     private static int wrong;
     private static int right;
 
-    private Checks() {
-    }
+    /** What is told before each wrong answer. */
+    private static String about = "";
 
     /** A call that may throw. */
     interface Call {
         Object make();
+    }
+
+    static void about(String words) {
+        about = words;
+    }
+
+    static int count() {
+        return right + wrong;
     }
 
     static void due(String what, Object got, Object want) {
@@ -16,7 +37,7 @@ final class Checks {
             right++;
         } else {
             wrong++;
-            System.out.println(what + ": answered " + got + ", due is " + want);
+            System.out.println(about + what + ": answered " + got + ", due is " + want);
         }
     }
 
@@ -46,6 +67,8 @@ final class Checks {
             System.exit(1);
         }
     }
+
+    // ---- calls
 
     /** Up to eight characters in the bytes of a long, the first in the lowest. */
     static long pack(String keys) {
@@ -84,6 +107,45 @@ final class Checks {
         }
     }
 
+    /** Codes told by numbers and by texts of keys. */
+    static int[] codes(Object... parts) {
+        int[] codes = new int[100];
+        int count = 0;
+        for (Object part : parts) {
+            if (part instanceof Integer) {
+                codes[count++] = (Integer) part;
+            } else {
+                for (char key : ((String) part).toCharArray()) {
+                    codes[count++] = key;
+                }
+            }
+        }
+        return Arrays.copyOf(codes, count);
+    }
+
+    // ---- objects
+
+    static TwinEntry keyed(String keys) {
+        TwinEntry t = new TwinEntry();
+        due("keys " + keys, press(t, keys), 0);
+        return t;
+    }
+
+    static TwinEntry formula(String keys) {
+        TwinEntry t = new TwinEntry();
+        t.model(1);
+        due("formula " + keys, press(t, keys), 0);
+        return t;
+    }
+
+    static TwinEntry programmed(Object... parts) {
+        TwinEntry t = new TwinEntry();
+        store(t, 0, codes(parts));
+        return t;
+    }
+
+    // ---- what is seen
+
     /** The line without the blanks at its end. */
     static String line(TwinEntry t) {
         return wholeLine(t).stripTrailing();
@@ -108,11 +170,61 @@ final class Checks {
         return t.digits(which) + "E" + t.exponent(which);
     }
 
+    /** X, Y, Z, T and LAST, when they are whole numbers below 10. */
+    static String stack(TwinEntry t) {
+        StringBuilder all = new StringBuilder();
+        for (int i = X; i <= LAST; i++) {
+            all.append(' ').append(t.digits(i) / 100000000000L);
+        }
+        return all.toString();
+    }
+
+    /** All numbers and states but the fault. */
+    static String allBut1(TwinEntry t) {
+        StringBuilder all = new StringBuilder();
+        for (int i = 0; i < 15; i++) {
+            all.append(' ').append(number(t, i));
+        }
+        for (int i = 0; i < 11; i++) {
+            all.append(i == 1 ? "" : " " + t.state(i));
+        }
+        return all.toString();
+    }
+
     static String outKeys(TwinEntry t, int count) {
         StringBuilder keys = new StringBuilder();
         for (int i = 0; i < count; i++) {
             keys.append((char) t.out(i));
         }
         return keys.toString();
+    }
+
+    // ---- short checks
+
+    static void dueX(String keys, String want) {
+        due("X behind " + keys, number(keyed(keys), X), want);
+    }
+
+    static void dueFormula(String keys, String want) {
+        due("X behind the formula " + keys, number(formula(keys), X), want);
+    }
+
+    static void dueLine(String keys, String want) {
+        due("line behind " + keys, line(keyed(keys)), want);
+    }
+
+    static void dueMode(int kind, int n, String keys, String want) {
+        TwinEntry t = keyed(keys);
+        t.mode(kind, n);
+        due("line by mode " + kind + ", " + n + " behind " + keys, line(t), want);
+    }
+
+    /** A fault by the last key, and nothing else changed. */
+    static void dueFault(TwinEntry t, String key, int fault) {
+        String before = allBut1(t);
+        due("fault by " + key, t.press(pack(key)), fault);
+        due("state 1 behind " + key, t.state(1), fault);
+        due("line behind " + key, line(t), "FAULT " + fault);
+        due("nothing else changed by " + key, allBut1(t), before);
     }
 }

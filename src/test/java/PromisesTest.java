@@ -1,16 +1,5 @@
 /** The promises of the document, by number: ordinary inputs, edges, wrong inputs. */
-public final class PromisesTest {
-    private static final Class<IllegalStateException> STATE = IllegalStateException.class;
-    private static final Class<IllegalArgumentException> ARGUMENT = IllegalArgumentException.class;
-    private static final Class<IndexOutOfBoundsException> INDEX = IndexOutOfBoundsException.class;
-    private static final Class<UnsupportedOperationException> UNSUPPORTED = UnsupportedOperationException.class;
-
-    private static final int X = 10;
-    private static final int Y = 11;
-    private static final int Z = 12;
-    private static final int T = 13;
-    private static final int LAST = 14;
-
+public final class PromisesTest extends Checks {
     private PromisesTest() {
     }
 
@@ -45,82 +34,7 @@ public final class PromisesTest {
         promise16Out();
         promise17Undo();
         promise18State();
-        Checks.end("PromisesTest");
-    }
-
-    // ---- small words for the tests
-
-    private static void due(String what, Object got, Object want) {
-        Checks.due(what, got, want);
-    }
-
-    private static TwinEntry keyed(String keys) {
-        TwinEntry t = new TwinEntry();
-        due("keys " + keys, Checks.press(t, keys), 0);
-        return t;
-    }
-
-    private static TwinEntry formula(String keys) {
-        TwinEntry t = new TwinEntry();
-        t.model(1);
-        due("formula " + keys, Checks.press(t, keys), 0);
-        return t;
-    }
-
-    private static void dueX(String keys, String want) {
-        due("X behind " + keys, Checks.number(keyed(keys), X), want);
-    }
-
-    private static void dueFormula(String keys, String want) {
-        due("X behind the formula " + keys, Checks.number(formula(keys), X), want);
-    }
-
-    private static void dueLine(String keys, String want) {
-        due("line behind " + keys, Checks.line(keyed(keys)), want);
-    }
-
-    /** A fault by the last key, and nothing else changed. */
-    private static void dueFault(TwinEntry t, String key, int fault) {
-        String before = allBut1(t);
-        due("fault by " + key, t.press(Checks.pack(key)), fault);
-        due("state 1 behind " + key, t.state(1), fault);
-        due("line behind " + key, Checks.line(t), "FAULT " + fault);
-        due("nothing else changed by " + key, allBut1(t), before);
-    }
-
-    /** All numbers and states but the fault. */
-    private static String allBut1(TwinEntry t) {
-        StringBuilder all = new StringBuilder();
-        for (int i = 0; i < 15; i++) {
-            all.append(' ').append(Checks.number(t, i));
-        }
-        for (int i = 0; i < 11; i++) {
-            all.append(i == 1 ? "" : " " + t.state(i));
-        }
-        return all.toString();
-    }
-
-    private static String stack(TwinEntry t) {
-        StringBuilder all = new StringBuilder();
-        for (int i = X; i <= LAST; i++) {
-            all.append(' ').append(t.digits(i) / 100000000000L);
-        }
-        return all.toString();
-    }
-
-    private static int[] codes(Object... parts) {
-        int[] codes = new int[100];
-        int count = 0;
-        for (Object part : parts) {
-            if (part instanceof Integer) {
-                codes[count++] = (Integer) part;
-            } else {
-                for (char key : ((String) part).toCharArray()) {
-                    codes[count++] = key;
-                }
-            }
-        }
-        return java.util.Arrays.copyOf(codes, count);
+        end("PromisesTest");
     }
 
     // ---- promises
@@ -132,14 +46,14 @@ public final class PromisesTest {
             due("state " + i + " of a new object", t.state(i), want[i]);
         }
         for (int i = 0; i < 15; i++) {
-            due("number " + i + " of a new object", Checks.number(t, i), "0E0");
+            due("number " + i + " of a new object", number(t, i), "0E0");
         }
         for (int i = 0; i < 100; i++) {
             due("code " + i + " of a new object", t.code(i), 0);
         }
-        due("line of a new object", Checks.wholeLine(t), " 0.00               ");
+        due("line of a new object", wholeLine(t), " 0.00               ");
         due("text of a new object", t.wipe(), 0);
-        Checks.dueThrow("OUT of a new object", INDEX, () -> t.out(0));
+        dueThrow("OUT of a new object", INDEX, () -> t.out(0));
         due("nothing runs", t.run(500), 0);
         due("nothing to stop", t.stop(), false);
         due("nothing to undo", t.undo(), false);
@@ -147,34 +61,34 @@ public final class PromisesTest {
 
     private static void promise2Model() {
         TwinEntry t = keyed("7k2=3=4+5");
-        Checks.store(t, 3, 128, 'N');
+        store(t, 3, 128, 'N');
         t.mode(1, 3);
-        Checks.type(t, "1+2");
+        type(t, "1+2");
         t.translate();
-        Checks.press(t, "x");
+        press(t, "x");
         t.model(1);
         due("model", t.state(0), 1);
         due("numbers", stack(t), " 0 0 0 0 0");
-        due("the register stays", Checks.number(t, 0), "700000000000E0");
+        due("the register stays", number(t, 0), "700000000000E0");
         due("program stays", t.code(4), (int) 'N');
-        due("mode stays", Checks.line(t), " 0.000E+00");
+        due("mode stays", line(t), " 0.000E+00");
         due("OUT stays", t.out(3), (int) '+');
         due("nothing to undo", t.state(9), 0);
         due("the fault is 0", t.state(1), 0);
         due("no entry", t.state(7), 0);
         due("LIFT off", t.state(8), 0);
-        Checks.press(t, "2*(3");
+        press(t, "2*(3");
         t.model(1);
         due("row is empty", t.state(5), 0);
         due("place DONE", t.state(6), 0);
-        due("X is 0, in the same model", Checks.number(t, X), "0E0");
+        due("X is 0, in the same model", number(t, X), "0E0");
         due("text stays", t.wipe(), 3);
-        Checks.dueThrow("model 2", ARGUMENT, () -> t.model(2));
-        Checks.dueThrow("model -1", ARGUMENT, () -> t.model(-1));
-        Checks.press(t, "\u0090");
+        dueThrow("model 2", ARGUMENT, () -> t.model(2));
+        dueThrow("model -1", ARGUMENT, () -> t.model(-1));
+        press(t, "\u0090");
         due("a program runs", t.state(2), 1);
-        Checks.dueThrow("model when a program runs", STATE, () -> t.model(0));
-        Checks.dueThrow("wrong model when a program runs", STATE, () -> t.model(2));
+        dueThrow("model when a program runs", STATE, () -> t.model(0));
+        dueThrow("wrong model when a program runs", STATE, () -> t.model(2));
     }
 
     private static void promise3Entry() {
@@ -219,7 +133,7 @@ public final class PromisesTest {
         due("B left no digit, but there was one before: no entry", t.state(7), 0);
         due("X and Y then", stack(t), " 0 4 0 0 0");
         due("LIFT is off then", t.state(8), 0);
-        Checks.press(t, "8");
+        press(t, "8");
         due("the next entry takes the place of 0", stack(t), " 8 4 0 0 0");
         dueLine(".B", " 0.00");
         dueLine("5N=", "-5.00");
@@ -227,44 +141,44 @@ public final class PromisesTest {
 
     private static void promise3EntryFaults() {
         TwinEntry t = new TwinEntry();
-        due("the key that makes it too large", Checks.press(t, "99E99"), 2);
-        due("X stays", Checks.number(t, X), "990000000000E10");
-        due("the entry stays", t.press(Checks.pack("8")), 0);
-        due("X then", Checks.number(t, X), "990000000000E99");
-        due("line then", Checks.line(t), " 99E+98");
+        due("the key that makes it too large", press(t, "99E99"), 2);
+        due("X stays", number(t, X), "990000000000E10");
+        due("the entry stays", t.press(pack("8")), 0);
+        due("X then", number(t, X), "990000000000E99");
+        due("line then", line(t), " 99E+98");
         TwinEntry u = keyed("123456789012E9N9");
-        due("X with a low exponent", Checks.number(u, X), "123456789012E-88");
+        due("X with a low exponent", number(u, X), "123456789012E-88");
         dueFault(u, "N", 2);
-        due("a key that does not fail", Checks.press(u, "B"), 0);
+        due("a key that does not fail", press(u, "B"), 0);
         due("the fault goes", u.state(1), 0);
-        due("line then", Checks.line(u), " 123456789012E-9");
+        due("line then", line(u), " 123456789012E-9");
         TwinEntry v = keyed("5");
         dueFault(v, "(", 1);
-        due("the failing key did not end the entry", Checks.press(v, "5"), 0);
-        due("X then", Checks.number(v, X), "550000000000E1");
+        due("the failing key did not end the entry", press(v, "5"), 0);
+        due("X then", number(v, X), "550000000000E1");
     }
 
     private static void promise3Stack() {
         TwinEntry t = keyed("1=2=3=4");
         due("four numbers", stack(t), " 4 3 2 1 0");
-        Checks.press(t, "-");
+        press(t, "-");
         due("Y - X", stack(t), " -1 2 1 1 4");
-        Checks.press(t, "D");
+        press(t, "D");
         due("D", stack(t), " 2 1 1 -1 4");
-        Checks.press(t, "W");
+        press(t, "W");
         due("W", stack(t), " 1 2 1 -1 4");
-        Checks.press(t, "L");
+        press(t, "L");
         due("L", stack(t), " 4 1 2 1 4");
-        Checks.press(t, "=");
+        press(t, "=");
         due("=", stack(t), " 4 4 1 2 4");
-        Checks.press(t, "L");
+        press(t, "L");
         due("L behind =", stack(t), " 4 4 1 2 4");
-        Checks.press(t, "Q");
+        press(t, "Q");
         due("Q", stack(t), " 2 4 1 2 4");
-        Checks.press(t, "S");
+        press(t, "S");
         due("S", stack(t), " 4 4 1 2 2");
-        Checks.press(t, "8*");
-        due("*", Checks.number(t, X), "320000000000E1");
+        press(t, "8*");
+        due("*", number(t, X), "320000000000E1");
         dueX("8=2/", "400000000000E0");
         dueX("8=2+", "100000000000E1");
         dueX("8=2-", "600000000000E0");
@@ -280,15 +194,15 @@ public final class PromisesTest {
         dueFault(faults, "I", 3);
         dueFault(faults, "(", 1);
         dueFault(faults, ")", 1);
-        Checks.press(faults, "C1N");
+        press(faults, "C1N");
         dueFault(faults, "Q", 4);
-        Checks.press(faults, "C9E99=");
+        press(faults, "C9E99=");
         dueFault(faults, "S", 2);
         dueFault(faults, "+", 2);
-        Checks.press(faults, "N");
+        press(faults, "N");
         dueFault(faults, "-", 2);
         dueFault(faults, "*", 2);
-        Checks.press(faults, "1E99N");
+        press(faults, "1E99N");
         dueFault(faults, "/", 2);
     }
 
@@ -297,7 +211,7 @@ public final class PromisesTest {
         String keys = "5=WCDBLCNCaCkCQ6.NBB7S=+";
         String want = "001010101010101111100101";
         for (int i = 0; i < keys.length(); i++) {
-            Checks.press(t, keys.substring(i, i + 1));
+            press(t, keys.substring(i, i + 1));
             due("LIFT behind key " + i + " of " + keys, t.state(8), want.charAt(i) - '0');
         }
         due("without LIFT X is replaced", stack(keyed("5=6")), " 6 5 0 0 0");
@@ -306,13 +220,13 @@ public final class PromisesTest {
         due("recalling behind =", stack(keyed("5k=a")), " 5 5 0 0 0");
         TwinEntry f = formula("5");
         due("LIFT in an entry of a formula", f.state(8), 0);
-        Checks.press(f, "+");
+        press(f, "+");
         due("LIFT when the entry has ended", f.state(8), 1);
-        Checks.press(f, "CB=");
+        press(f, "CB=");
         due("LIFT stays on in a formula", f.state(8), 1);
-        Checks.press(f, "7B");
+        press(f, "7B");
         due("LIFT when B leaves nothing", f.state(8), 0);
-        Checks.press(f, "QakN=");
+        press(f, "QakN=");
         due("LIFT stays off in a formula", f.state(8), 0);
     }
 
@@ -337,21 +251,21 @@ public final class PromisesTest {
         TwinEntry t = formula("1+2*3");
         due("things", t.state(5), 2);
         due("place HAS", t.state(6), 2);
-        Checks.press(t, "-");
+        press(t, "-");
         due("things behind -", t.state(5), 1);
         due("place WANTS", t.state(6), 1);
-        due("X is what was closed", Checks.number(t, X), "700000000000E0");
-        Checks.press(t, "k");
+        due("X is what was closed", number(t, X), "700000000000E0");
+        press(t, "k");
         due("k leaves the place", t.state(6), 1);
-        due("k stores X", Checks.number(t, 0), "700000000000E0");
-        Checks.press(t, "N");
+        due("k stores X", number(t, 0), "700000000000E0");
+        press(t, "N");
         due("N without an entry: HAS", t.state(6), 2);
-        Checks.press(t, "=");
-        due("7 - -7", Checks.number(t, X), "140000000000E1");
+        press(t, "=");
+        due("7 - -7", number(t, X), "140000000000E1");
         due("place DONE", t.state(6), 0);
-        Checks.press(t, "5B");
+        press(t, "5B");
         due("B leaves the place", t.state(6), 2);
-        Checks.press(t, "=S");
+        press(t, "=S");
         due("LAST stays", stack(t), " 0 0 0 0 0");
         for (String key : new String[] {"Q", "S", "N", "C", "B", "a"}) {
             due("place behind " + key, formula(key).state(6), 2);
@@ -366,26 +280,26 @@ public final class PromisesTest {
         dueFault(t, "W", 1);
         dueFault(t, "D", 1);
         dueFault(t, "L", 1);
-        Checks.press(t, "2");
+        press(t, "2");
         dueFault(t, "(", 5);
         dueFault(t, ")", 5);
-        Checks.press(t, "=");
+        press(t, "=");
         dueFault(t, ")", 5);
         TwinEntry deep = formula("((((((((");
         dueFault(deep, "(", 6);
-        Checks.press(deep, "1");
+        press(deep, "1");
         dueFault(deep, "+", 6);
-        Checks.press(deep, ")+");
+        press(deep, ")+");
         due("seven brackets and a number", deep.state(5), 8);
-        Checks.press(deep, "2");
+        press(deep, "2");
         dueFault(deep, "*", 6);
-        due("+ closes first", Checks.press(deep, "+"), 0);
+        due("+ closes first", press(deep, "+"), 0);
         dueFault(deep, "(", 6);
         TwinEntry full = formula("((((((1+2*3");
         due("six brackets and two numbers", full.state(5), 8);
-        due("a key that closes first", Checks.press(full, "*4"), 0);
+        due("a key that closes first", press(full, "*4"), 0);
         due("eight again", full.state(5), 8);
-        due("closes both", Checks.press(full, "+"), 0);
+        due("closes both", press(full, "+"), 0);
         due("seven", full.state(5), 7);
         TwinEntry zero = formula("2+1/0");
         dueFault(zero, "+", 3);
@@ -440,10 +354,10 @@ public final class PromisesTest {
         TwinEntry t = new TwinEntry();
         due("no key", t.press(0), 0);
         due("bytes 0 between", t.press(0x3200003100000000L), 0);
-        due("line", Checks.line(t), " 12");
+        due("line", line(t), " 12");
         due("two keys kept", t.state(9), 2);
-        due("fails by the third", t.press(Checks.pack("3=x45")), 1);
-        due("the keys before it are done, those behind not", Checks.number(t, X), "123000000000E2");
+        due("fails by the third", t.press(pack("3=x45")), 1);
+        due("the keys before it are done, those behind not", number(t, X), "123000000000E2");
         due("no key leaves the fault", t.press(0), 0);
         due("fault", t.state(1), 1);
         due("codes above 127", t.press(0xFFL), 1);
@@ -454,54 +368,54 @@ public final class PromisesTest {
         due("143", t.press(143L), 1);
         due("no such label", t.press(144L), 7);
         due("fault 7", t.state(1), 7);
-        due("a key that does not fail", t.press(Checks.pack("N")), 0);
+        due("a key that does not fail", t.press(pack("N")), 0);
         due("fault 0", t.state(1), 0);
-        Checks.store(t, 0, 128, 'N', 0);
-        Checks.press(t, "5");
-        due("starts the program, the keys behind are left", t.press(Checks.pack("6\u009077")), 0);
-        due("X", Checks.number(t, X), "560000000000E1");
+        store(t, 0, 128, 'N', 0);
+        press(t, "5");
+        due("starts the program, the keys behind are left", t.press(pack("6\u009077")), 0);
+        due("X", number(t, X), "560000000000E1");
         due("the entry has ended", t.state(7), 0);
         due("LIFT", t.state(8), 1);
         due("runs", t.state(2), 1);
-        Checks.dueThrow("press when a program runs", STATE, () -> t.press(0));
+        dueThrow("press when a program runs", STATE, () -> t.press(0));
     }
 
     private static void promise4Run() {
         TwinEntry t = new TwinEntry();
-        Checks.store(t, 0, codes(128, "1+", 156, 136, 153));
-        Checks.press(t, "3k0=\u0090");
+        store(t, 0, codes(128, "1+", 156, 136, 153));
+        press(t, "3k0=\u0090");
         due("place at the start", t.state(3), 1);
         due("no steps", t.run(0), 1);
         due("place stays", t.state(3), 1);
         due("three steps", t.run(3), 1);
         due("place behind COUNT", t.state(3), 4);
-        due("register", Checks.number(t, 0), "200000000000E0");
+        due("register", number(t, 0), "200000000000E0");
         due("on", t.run(1), 1);
         due("place behind the label", t.state(3), 1);
         due("seven steps more", t.run(7), 1);
         due("the test did not hold", t.state(3), 5);
         due("to see the end is a step", t.run(1), 0);
-        due("X", Checks.number(t, X), "300000000000E0");
+        due("X", number(t, X), "300000000000E0");
         due("nothing runs", t.state(3), -1);
         due("nothing runs, nothing is done", t.run(500), 0);
-        Checks.dueThrow("501 steps", ARGUMENT, () -> t.run(501));
-        Checks.dueThrow("-1 steps", ARGUMENT, () -> t.run(-1));
-        Checks.store(t, 8, codes(129, 137));
-        Checks.press(t, "\u0091");
+        dueThrow("501 steps", ARGUMENT, () -> t.run(501));
+        dueThrow("-1 steps", ARGUMENT, () -> t.run(-1));
+        store(t, 8, codes(129, 137));
+        press(t, "\u0091");
         due("a loop without end", t.run(500), 1);
         due("goes on", t.run(500), 1);
         TwinEntry f = formula("2*(");
-        Checks.store(f, 0, codes(128, "3+4)="));
-        Checks.press(f, "\u0090");
+        store(f, 0, codes(128, "3+4)="));
+        press(f, "\u0090");
         due("a program of formulas", f.run(500), 0);
-        due("X", Checks.number(f, X), "140000000000E1");
+        due("X", number(f, X), "140000000000E1");
     }
 
     private static void promise4Codes() {
         TwinEntry t = new TwinEntry();
         // 0: calls 1, which calls 2; the tests leave out a place.
-        Checks.store(t, 0, codes(128, 145, "7", 153, 129, "2", 146, "+", 152, 130, "3", 152));
-        Checks.press(t, "\u0090");
+        store(t, 0, codes(128, 145, "7", 153, 129, "2", 146, "+", 152, 130, "3", 152));
+        press(t, "\u0090");
         t.run(1);
         due("one call", t.state(4), 1);
         due("place", t.state(3), 5);
@@ -515,122 +429,122 @@ public final class PromisesTest {
         due("one call", t.state(4), 1);
         due("RETURN ended the entry", t.state(7), 0);
         due("STOP", t.run(4), 0);
-        due("STOP leaves the entry", Checks.line(t), " 7");
-        due("Y", Checks.number(t, Y), "500000000000E0");
-        due("the entry goes on", Checks.press(t, "5"), 0);
-        due("X", Checks.number(t, X), "750000000000E1");
+        due("STOP leaves the entry", line(t), " 7");
+        due("Y", number(t, Y), "500000000000E0");
+        due("the entry goes on", press(t, "5"), 0);
+        due("X", number(t, X), "750000000000E1");
         TwinEntry u = new TwinEntry();
-        Checks.store(u, 0, codes(128, 154, "1", 155, "2", 0, 129, "4", 152, 130, "5", 131));
-        Checks.press(u, "0\u0090");
+        store(u, 0, codes(128, 154, "1", 155, "2", 0, 129, "4", 152, 130, "5", 131));
+        press(u, "0\u0090");
         due("X is 0, and not below", u.run(4), 0);
-        due("the test ended the entry", Checks.line(u), " 1.00");
-        Checks.press(u, "C3N\u0090");
+        due("the test ended the entry", line(u), " 1.00");
+        press(u, "C3N\u0090");
         due("X is below 0, and not 0", u.run(4), 0);
-        due("line", Checks.line(u), " 2");
-        Checks.press(u, "\u0091");
+        due("line", line(u), " 2");
+        press(u, "\u0091");
         due("RETURN without a call is the end", u.run(2), 0);
-        due("and ends the entry", Checks.line(u), " 4.00");
-        Checks.press(u, "\u0092");
+        due("and ends the entry", line(u), " 4.00");
+        press(u, "\u0092");
         due("a label leaves the entry, 0 does", u.run(3), 0);
-        due("line", Checks.line(u), " 5");
-        Checks.store(u, 92, codes(0, 0, 0, 0, 0, 0, 132, 154));
-        Checks.press(u, "\u0094");
+        due("line", line(u), " 5");
+        store(u, 92, codes(0, 0, 0, 0, 0, 0, 132, 154));
+        press(u, "\u0094");
         due("place 99", u.state(3), 99);
         due("the test leaves out the place 100", u.run(1), 1);
         due("all behind 99", u.state(3), 100);
         due("the end", u.run(1), 0);
         due("no fault there", u.state(1), 0);
-        Checks.store(u, 92, codes(0, 0, 0, 0, 0, 0, 0, 133));
-        Checks.press(u, "\u0095");
+        store(u, 92, codes(0, 0, 0, 0, 0, 0, 0, 133));
+        press(u, "\u0095");
         due("a label at 99", u.state(3), 100);
         due("the end", u.run(1), 0);
         due("no fault there", u.state(1), 0);
-        Checks.store(u, 40, codes(134, 159, "8", "9", 0));
-        Checks.press(u, "2n0\u0096");
+        store(u, 40, codes(134, 159, "8", "9", 0));
+        press(u, "2n0\u0096");
         due("COUNT ends the entry", u.run(1), 1);
         due("entry", u.state(7), 0);
         due("COUNT: 1 is above 0", u.state(3), 42);
         u.stop();
-        Checks.press(u, "\u0096");
+        press(u, "\u0096");
         u.run(1);
         due("COUNT: 0 is not", u.state(3), 43);
-        due("register 3", Checks.number(u, 3), "0E0");
+        due("register 3", number(u, 3), "0E0");
         u.stop();
-        Checks.press(u, "\u0096");
+        press(u, "\u0096");
         u.run(1);
         due("COUNT: -1 is not", u.state(3), 43);
-        due("register 3", Checks.number(u, 3), "-100000000000E0");
+        due("register 3", number(u, 3), "-100000000000E0");
     }
 
     private static void promise4ProgramFaults() {
         TwinEntry t = new TwinEntry();
-        Checks.store(t, 0, codes(128, "5", 143, 0, 129, 145, 0, 130, "6", 200, 0, 131, "0I", 0, 132, "7", 151));
-        Checks.press(t, "\u0090");
+        store(t, 0, codes(128, "5", 143, 0, 129, 145, 0, 130, "6", 200, 0, 131, "0I", 0, 132, "7", 151));
+        press(t, "\u0090");
         due("GO to no label", t.run(2), 0);
         due("fault 7", t.state(1), 7);
         due("the entry stays", t.state(7), 1);
         due("nothing runs", t.state(2), 0);
-        Checks.press(t, "\u0091");
+        press(t, "\u0091");
         due("the fault is gone", t.state(1), 0);
         due("four calls", t.run(4), 1);
         due("under way", t.state(4), 4);
         due("the fifth", t.run(1), 0);
         due("fault 8", t.state(1), 8);
         due("none under way", t.state(4), 0);
-        Checks.press(t, "\u0092");
+        press(t, "\u0092");
         due("no code", t.run(2), 0);
         due("fault 1", t.state(1), 1);
-        Checks.press(t, "\u0093");
+        press(t, "\u0093");
         due("a key that fails", t.run(2), 0);
         due("fault 3", t.state(1), 3);
-        due("X", Checks.number(t, X), "0E0");
+        due("X", number(t, X), "0E0");
         due("the entry", t.state(7), 1);
-        Checks.press(t, "\u0094");
+        press(t, "\u0094");
         due("CALL of no label", t.run(2), 0);
         due("fault 7", t.state(1), 7);
         due("the program's start can be undone", t.undo(), true);
-        due("X before it", Checks.number(t, X), "0E0");
+        due("X before it", number(t, X), "0E0");
         // Fault 7 is told before fault 8.
-        Checks.store(t, 0, codes(128, 145, 129, 146, 130, 147, 131, 148));
-        Checks.store(t, 8, codes(132, 151, 0, 0, 0, 0, 0, 0));
-        Checks.press(t, "\u0090");
+        store(t, 0, codes(128, 145, 129, 146, 130, 147, 131, 148));
+        store(t, 8, codes(132, 151, 0, 0, 0, 0, 0, 0));
+        press(t, "\u0090");
         due("four calls, then one of no label", t.run(500), 0);
         due("fault 7", t.state(1), 7);
     }
 
     private static void promise5Stop() {
         TwinEntry t = new TwinEntry();
-        Checks.store(t, 0, codes(128, "12k34"));
-        Checks.press(t, "9\u0090");
+        store(t, 0, codes(128, "12k34"));
+        press(t, "9\u0090");
         t.run(2);
         due("something ran", t.stop(), true);
-        due("where it is", Checks.line(t), " 12");
+        due("where it is", line(t), " 12");
         due("nothing runs", t.state(2), 0);
         due("nothing ran", t.stop(), false);
-        due("X", Checks.number(t, X), "120000000000E1");
+        due("X", number(t, X), "120000000000E1");
         due("start is kept", t.undo(), true);
-        due("entry before it", Checks.line(t), " 9");
+        due("entry before it", line(t), " 9");
         TwinEntry s = keyed("3k1=5");
-        Checks.store(s, 0, codes(128, "7k", 129, 137));
+        store(s, 0, codes(128, "7k", 129, 137));
         int kept = s.state(9);
         s.solve(0);
         s.run(5);
-        due("the register has changed", Checks.number(s, 0), "700000000000E0");
+        due("the register has changed", number(s, 0), "700000000000E0");
         due("the solver ran", s.stop(), true);
-        due("register as before", Checks.number(s, 0), "300000000000E0");
-        due("entry as before", Checks.line(s), " 5");
-        due("Y as before", Checks.number(s, Y), "100000000000E0");
+        due("register as before", number(s, 0), "300000000000E0");
+        due("entry as before", line(s), " 5");
+        due("Y as before", number(s, Y), "100000000000E0");
         due("nothing kept", s.state(9), kept);
         due("LIFT as before", s.state(8), 0);
-        Checks.press(s, "x");
+        press(s, "x");
         s.stop();
         due("the fault stays", s.state(1), 1);
     }
 
     private static void promise6Solve() {
         TwinEntry t = new TwinEntry();
-        Checks.store(t, 0, codes(128, "S2-", 0));
-        Checks.press(t, "1=2");
+        store(t, 0, codes(128, "S2-", 0));
+        press(t, "1=2");
         due("begins", t.solve(0), 0);
         due("runs", t.state(2), 2);
         due("the first value", t.state(10), 1);
@@ -645,23 +559,23 @@ public final class PromisesTest {
         due("at its start", t.state(3), 1);
         due("numbers are b", stack(t), " 2 2 2 2 2");
         due("to the end", t.run(500), 0);
-        due("found", Checks.number(t, X), "141421356237E0");
-        due("its value", Checks.number(t, Y), Checks.number(keyed("1.41421356237S2-"), X));
-        due("Z", Checks.number(t, Z), "141421356237E0");
-        due("T", Checks.number(t, T), "141421356238E0");
+        due("found", number(t, X), "141421356237E0");
+        due("its value", number(t, Y), number(keyed("1.41421356237S2-"), X));
+        due("Z", number(t, Z), "141421356237E0");
+        due("T", number(t, T), "141421356238E0");
         due("LIFT", t.state(8), 1);
         due("can be undone", t.undo(), true);
-        due("as before", Checks.line(t), " 2");
-        due("Y as before", Checks.number(t, Y), "100000000000E0");
-        Checks.press(t, "C2=1");
+        due("as before", line(t), " 2");
+        due("Y as before", number(t, Y), "100000000000E0");
+        press(t, "C2=1");
         t.solve(0);
         t.run(500);
-        due("b is found, whose value is less", Checks.number(t, X), "141421356237E0");
-        due("Z is a", Checks.number(t, Z), "141421356238E0");
-        due("T is b", Checks.number(t, T), "141421356237E0");
-        Checks.press(t, "5");
-        Checks.dueThrow("label 8", ARGUMENT, () -> t.solve(8));
-        Checks.dueThrow("label -1", ARGUMENT, () -> t.solve(-1));
+        due("b is found, whose value is less", number(t, X), "141421356237E0");
+        due("Z is a", number(t, Z), "141421356238E0");
+        due("T is b", number(t, T), "141421356237E0");
+        press(t, "5");
+        dueThrow("label 8", ARGUMENT, () -> t.solve(8));
+        dueThrow("label -1", ARGUMENT, () -> t.solve(-1));
         int values = t.state(10);
         due("no such label", t.solve(1), 7);
         due("fault 7", t.state(1), 7);
@@ -669,55 +583,55 @@ public final class PromisesTest {
         due("the entry is still there", t.state(7), 1);
         due("begins again", t.solve(0), 0);
         due("the fault is 0", t.state(1), 0);
-        Checks.dueThrow("solve when the solver runs", STATE, () -> t.solve(9));
-        Checks.dueThrow("press when the solver runs", STATE, () -> t.press(0));
-        Checks.dueThrow("model when the solver runs", STATE, () -> t.model(0));
-        Checks.dueThrow("store when the solver runs", STATE, () -> t.store(0, 0));
-        Checks.dueThrow("undo when the solver runs", STATE, () -> t.undo());
+        dueThrow("solve when the solver runs", STATE, () -> t.solve(9));
+        dueThrow("press when the solver runs", STATE, () -> t.press(0));
+        dueThrow("model when the solver runs", STATE, () -> t.model(0));
+        dueThrow("store when the solver runs", STATE, () -> t.store(0, 0));
+        dueThrow("undo when the solver runs", STATE, () -> t.undo());
         t.stop();
         t.model(1);
-        Checks.dueThrow("solve with formulas", UNSUPPORTED, () -> t.solve(0));
-        Checks.dueThrow("wrong label with formulas", UNSUPPORTED, () -> t.solve(9));
-        Checks.press(t, "\u0090");
-        Checks.dueThrow("solve when a program runs", STATE, () -> t.solve(0));
+        dueThrow("solve with formulas", UNSUPPORTED, () -> t.solve(0));
+        dueThrow("wrong label with formulas", UNSUPPORTED, () -> t.solve(9));
+        press(t, "\u0090");
+        dueThrow("solve when a program runs", STATE, () -> t.solve(0));
     }
 
     private static void promise6SolverEnds() {
         TwinEntry t = new TwinEntry();
-        Checks.store(t, 0, codes(128, "1-", 0));
-        Checks.press(t, "1=9");
+        store(t, 0, codes(128, "1-", 0));
+        press(t, "1=9");
         t.solve(0);
         due("a is found", t.run(500), 0);
         due("after one value", t.state(10), 1);
         due("numbers", stack(t), " 1 0 1 1 1");
-        Checks.press(t, "C9=1");
+        press(t, "C9=1");
         t.solve(0);
         due("b is found", t.run(500), 0);
         due("after two values", t.state(10), 2);
         due("numbers", stack(t), " 1 0 1 1 1");
-        Checks.press(t, "C0=2");
+        press(t, "C0=2");
         t.solve(0);
         due("m is found", t.run(9), 0);
         due("after three values", t.state(10), 3);
         due("numbers", stack(t), " 1 0 1 1 1");
-        Checks.press(t, "C0=4");
+        press(t, "C0=4");
         t.solve(0);
         due("m takes the place of b", t.run(9), 1);
         due("the fourth value", t.state(10), 4);
-        due("X is 1", Checks.number(t, X), "100000000000E0");
+        due("X is 1", number(t, X), "100000000000E0");
         due("found", t.run(3), 0);
         // Registers go from value to value: the same a and b, but another sign each time.
         TwinEntry r = new TwinEntry();
-        Checks.store(r, 0, codes(128, "aNka", 0));
-        Checks.press(r, "5k2=2");
+        store(r, 0, codes(128, "aNka", 0));
+        press(r, "5k2=2");
         r.solve(0);
         due("found between 2 and 2", r.run(500), 0);
         due("a, as neither value is less", stack(r), " 2 -5 2 2 0");
-        due("register as the programs left it", Checks.number(r, 0), "500000000000E0");
+        due("register as the programs left it", number(r, 0), "500000000000E0");
         due("undo", r.undo(), true);
         // The value of b is less in size.
-        Checks.store(r, 0, codes(128, "a2N/k", 0));
-        Checks.press(r, "C8k2=2");
+        store(r, 0, codes(128, "a2N/k", 0));
+        press(r, "C8k2=2");
         r.solve(0);
         r.run(500);
         due("b, whose value is less", stack(r), " 2 2 2 2 -2");
@@ -725,8 +639,8 @@ public final class PromisesTest {
 
     private static void promise6SolverFaults() {
         TwinEntry t = new TwinEntry();
-        Checks.store(t, 0, codes(128, "S1+", 0, 129, "kI", 0, 130, "k1E99N-", 0));
-        Checks.press(t, "1=2");
+        store(t, 0, codes(128, "S1+", 0, 129, "kI", 0, 130, "k1E99N-", 0));
+        press(t, "1=2");
         String before = allBut1(t);
         t.solve(0);
         due("the same sign", t.run(500), 0);
@@ -734,13 +648,13 @@ public final class PromisesTest {
         due("nothing is found", t.state(9), 3);
         due("two values", t.state(10), 2);
         due("as before but for the values", allBut1(t).replaceAll("2$", "0"), before);
-        Checks.press(t, "C0=5");
+        press(t, "C0=5");
         t.solve(1);
         due("a program that fails", t.run(500), 0);
         due("fault 3", t.state(1), 3);
-        due("register as before", Checks.number(t, 0), "0E0");
+        due("register as before", number(t, 0), "0E0");
         due("entry as before", t.state(7), 1);
-        Checks.press(t, "C0=9E9");
+        press(t, "C0=9E9");
         t.solve(2);
         due("a hundred values are too few", t.run(500), 1);
         due("62 are over, and 4 steps of the next one", t.state(10), 63);
@@ -749,34 +663,28 @@ public final class PromisesTest {
         due("no other is taken", t.run(1), 0);
         due("fault 9", t.state(1), 9);
         due("a hundred values", t.state(10), 100);
-        due("X as before", Checks.number(t, X), "900000000000E9");
+        due("X as before", number(t, X), "900000000000E9");
         TwinEntry wide = new TwinEntry();
-        Checks.store(wide, 0, codes(128, 0));
-        Checks.press(wide, "9NE99=9E99");
+        store(wide, 0, codes(128, 0));
+        press(wide, "9NE99=9E99");
         wide.solve(0);
         due("b - a is too large", wide.run(500), 0);
         due("fault 2", wide.state(1), 2);
-        due("X as before", Checks.number(wide, X), "900000000000E99");
+        due("X as before", number(wide, X), "900000000000E99");
     }
 
     private static void promise7Shown() {
         TwinEntry t = keyed("12345678");
-        due("part 0", t.shown(0), Checks.pack(" 1234567"));
-        due("part 1", t.shown(1), Checks.pack("8       "));
-        due("part 2", t.shown(2), Checks.pack("    \0\0\0\0"));
-        Checks.dueThrow("part 3", ARGUMENT, () -> t.shown(3));
-        Checks.dueThrow("part -1", ARGUMENT, () -> t.shown(-1));
-        Checks.press(t, "x");
-        due("a fault", Checks.wholeLine(t), "FAULT 1             ");
-        due("the fault first", t.shown(0), Checks.pack("FAULT 1 "));
+        due("part 0", t.shown(0), pack(" 1234567"));
+        due("part 1", t.shown(1), pack("8       "));
+        due("part 2", t.shown(2), pack("    \0\0\0\0"));
+        dueThrow("part 3", ARGUMENT, () -> t.shown(3));
+        dueThrow("part -1", ARGUMENT, () -> t.shown(-1));
+        press(t, "x");
+        due("a fault", wholeLine(t), "FAULT 1             ");
+        due("the fault first", t.shown(0), pack("FAULT 1 "));
         TwinEntry u = keyed("123456.789012NE9N9");
-        due("the longest entry", Checks.wholeLine(u), "-123456.789012E-99  ");
-    }
-
-    private static void dueMode(int kind, int n, String keys, String want) {
-        TwinEntry t = keyed(keys);
-        t.mode(kind, n);
-        due("line by mode " + kind + ", " + n + " behind " + keys, Checks.line(t), want);
+        due("the longest entry", wholeLine(u), "-123456.789012E-99  ");
     }
 
     private static void promise7Fixed() {
@@ -827,19 +735,19 @@ public final class PromisesTest {
     private static void promise8And9Numbers() {
         TwinEntry t = keyed("1k2l3m4n5o6p7q8r9s.5Nt");
         for (int i = 0; i < 9; i++) {
-            due("register " + i, Checks.number(t, i), (i + 1) + "00000000000E0");
+            due("register " + i, number(t, i), (i + 1) + "00000000000E0");
         }
-        due("register 9", Checks.number(t, 9), "-500000000000E-1");
-        due("X", Checks.number(t, X), "-500000000000E-1");
-        due("Y", Checks.number(t, Y), "900000000000E0");
-        due("Z", Checks.number(t, Z), "800000000000E0");
-        due("T", Checks.number(t, T), "700000000000E0");
-        Checks.press(t, "+");
-        due("LAST", Checks.number(t, LAST), "-500000000000E-1");
-        Checks.dueThrow("digits 15", INDEX, () -> t.digits(15));
-        Checks.dueThrow("digits -1", INDEX, () -> t.digits(-1));
-        Checks.dueThrow("exponent 15", INDEX, () -> t.exponent(15));
-        Checks.dueThrow("exponent -1", INDEX, () -> t.exponent(-1));
+        due("register 9", number(t, 9), "-500000000000E-1");
+        due("X", number(t, X), "-500000000000E-1");
+        due("Y", number(t, Y), "900000000000E0");
+        due("Z", number(t, Z), "800000000000E0");
+        due("T", number(t, T), "700000000000E0");
+        press(t, "+");
+        due("LAST", number(t, LAST), "-500000000000E-1");
+        dueThrow("digits 15", INDEX, () -> t.digits(15));
+        dueThrow("digits -1", INDEX, () -> t.digits(-1));
+        dueThrow("exponent 15", INDEX, () -> t.exponent(15));
+        dueThrow("exponent -1", INDEX, () -> t.exponent(-1));
         due("an exponent below 0", keyed("1E99N").exponent(X), -99);
         due("the exponent of 0", keyed("0E50").exponent(X), 0);
     }
@@ -847,23 +755,23 @@ public final class PromisesTest {
     private static void promise10Mode() {
         TwinEntry t = keyed("2=3/");
         t.mode(1, 9);
-        due("scientific", Checks.line(t), " 6.666666667E-01");
+        due("scientific", line(t), " 6.666666667E-01");
         t.mode(0, 0);
-        due("fixed", Checks.line(t), " 1.");
+        due("fixed", line(t), " 1.");
         t.mode(0, 9);
-        due("fixed 9", Checks.line(t), " 0.666666667");
-        Checks.dueThrow("kind 2", ARGUMENT, () -> t.mode(2, 0));
-        Checks.dueThrow("kind -1", ARGUMENT, () -> t.mode(-1, 0));
-        Checks.dueThrow("n 10", ARGUMENT, () -> t.mode(1, 10));
-        Checks.dueThrow("n -1", ARGUMENT, () -> t.mode(1, -1));
-        due("as before", Checks.line(t), " 0.666666667");
-        Checks.press(t, "x");
+        due("fixed 9", line(t), " 0.666666667");
+        dueThrow("kind 2", ARGUMENT, () -> t.mode(2, 0));
+        dueThrow("kind -1", ARGUMENT, () -> t.mode(-1, 0));
+        dueThrow("n 10", ARGUMENT, () -> t.mode(1, 10));
+        dueThrow("n -1", ARGUMENT, () -> t.mode(1, -1));
+        due("as before", line(t), " 0.666666667");
+        press(t, "x");
         t.mode(1, 1);
         due("the fault stays", t.state(1), 1);
-        Checks.store(t, 0, 128);
-        Checks.press(t, "\u0090");
+        store(t, 0, 128);
+        press(t, "\u0090");
         t.mode(1, 1);
-        due("also when a program runs", Checks.line(t), " 6.7E-01");
+        due("also when a program runs", line(t), " 6.7E-01");
     }
 
     private static void promise11And12Codes() {
@@ -881,14 +789,14 @@ public final class PromisesTest {
         due("bytes 0, to the eighth", t.code(97), 0);
         due("behind it", t.code(98), 0);
         due("the last", t.code(99), 255);
-        Checks.dueThrow("store at 93", INDEX, () -> t.store(93, 1));
-        Checks.dueThrow("store at -1", INDEX, () -> t.store(-1, 1));
-        Checks.dueThrow("code 100", INDEX, () -> t.code(100));
-        Checks.dueThrow("code -1", INDEX, () -> t.code(-1));
-        Checks.store(t, 0, 128, 136);
-        Checks.press(t, "\u0090");
-        Checks.dueThrow("store when a program runs", STATE, () -> t.store(0, 0));
-        Checks.dueThrow("store at a wrong place then", STATE, () -> t.store(93, 0));
+        dueThrow("store at 93", INDEX, () -> t.store(93, 1));
+        dueThrow("store at -1", INDEX, () -> t.store(-1, 1));
+        dueThrow("code 100", INDEX, () -> t.code(100));
+        dueThrow("code -1", INDEX, () -> t.code(-1));
+        store(t, 0, 128, 136);
+        press(t, "\u0090");
+        dueThrow("store when a program runs", STATE, () -> t.store(0, 0));
+        dueThrow("store at a wrong place then", STATE, () -> t.store(93, 0));
         due("code when a program runs", t.code(1), 136);
     }
 
@@ -896,12 +804,12 @@ public final class PromisesTest {
         TwinEntry t = new TwinEntry();
         due("no key", t.type(0), 0);
         due("three keys", t.type(0x0033002B00310000L), 3);
-        due("nine more", Checks.type(t, "*23456789"), 12);
-        due("all", Checks.type(t, "0".repeat(24)), 36);
-        due("five are too many", t.type(Checks.pack("12345")), -1);
-        due("none was added, four are not", t.type(Checks.pack("1\0002\0003\0004")), 40);
+        due("nine more", type(t, "*23456789"), 12);
+        due("all", type(t, "0".repeat(24)), 36);
+        due("five are too many", t.type(pack("12345")), -1);
+        due("none was added, four are not", t.type(pack("1\0002\0003\0004")), 40);
         due("none is not too many", t.type(0), 40);
-        due("one is", t.type(Checks.pack("1")), -1);
+        due("one is", t.type(pack("1")), -1);
         due("wiped", t.wipe(), 40);
         due("empty", t.wipe(), 0);
         due("any code", t.type(-1L), 8);
@@ -909,20 +817,20 @@ public final class PromisesTest {
 
     private static void dueOut(String text, String want) {
         TwinEntry t = new TwinEntry();
-        Checks.type(t, text);
+        type(t, text);
         int count = t.translate();
         due("keys of " + text, count, want.length());
-        due("OUT of " + text, Checks.outKeys(t, Math.max(count, 0)), want);
+        due("OUT of " + text, outKeys(t, Math.max(count, 0)), want);
     }
 
     private static void dueRefused(String text, int code) {
         TwinEntry t = new TwinEntry();
-        Checks.type(t, "1");
+        type(t, "1");
         t.translate();
         t.wipe();
-        Checks.type(t, text);
+        type(t, text);
         due("text " + text, t.translate(), -code);
-        Checks.dueThrow("OUT is empty behind " + text, INDEX, () -> t.out(0));
+        dueThrow("OUT is empty behind " + text, INDEX, () -> t.out(0));
         due("the text stays", t.wipe(), text.length());
     }
 
@@ -997,25 +905,25 @@ public final class PromisesTest {
         for (String text : texts) {
             TwinEntry t = keyed("7k3l");
             t.model(1);
-            Checks.press(t, text + "=");
-            String want = Checks.number(t, X);
-            Checks.type(t, text);
+            press(t, text + "=");
+            String want = number(t, X);
+            type(t, text);
             int count = t.translate();
             t.model(0);
-            Checks.press(t, "W" + Checks.outKeys(t, count));
-            due("the stack by OUT of " + text, Checks.number(t, X), want);
+            press(t, "W" + outKeys(t, count));
+            due("the stack by OUT of " + text, number(t, X), want);
         }
     }
 
     private static void promise16Out() {
         TwinEntry t = new TwinEntry();
-        Checks.type(t, "1+2");
-        Checks.dueThrow("before translate", INDEX, () -> t.out(0));
+        type(t, "1+2");
+        dueThrow("before translate", INDEX, () -> t.out(0));
         t.translate();
         due("key 0", t.out(0), (int) '1');
         due("key 3", t.out(3), (int) '+');
-        Checks.dueThrow("key 4", INDEX, () -> t.out(4));
-        Checks.dueThrow("key -1", INDEX, () -> t.out(-1));
+        dueThrow("key 4", INDEX, () -> t.out(4));
+        dueThrow("key -1", INDEX, () -> t.out(-1));
         t.wipe();
         due("OUT stays when the text goes", t.out(1), (int) '=');
     }
@@ -1025,8 +933,8 @@ public final class PromisesTest {
         due("five at most", t.state(9), 5);
         due("undo +", t.undo(), true);
         due("numbers", stack(t), " 3 2 1 0 0");
-        due("the entry is back", Checks.line(t), " 3");
-        due("and goes on", Checks.press(t, "4"), 0);
+        due("the entry is back", line(t), " 3");
+        due("and goes on", press(t, "4"), 0);
         due("undo 4", t.undo(), true);
         due("undo 3", t.undo(), true);
         due("numbers", stack(t), " 2 2 1 0 0");
@@ -1034,34 +942,34 @@ public final class PromisesTest {
         due("undo =", t.undo(), true);
         due("undo 2", t.undo(), true);
         due("undo =, the fifth", t.undo(), true);
-        due("line", Checks.line(t), " 1");
-        Checks.press(t, "x");
+        due("line", line(t), " 1");
+        press(t, "x");
         due("nothing is kept", t.undo(), false);
         due("the fault stays", t.state(1), 1);
-        Checks.press(t, "5x");
+        press(t, "5x");
         due("a key that fails is not kept", t.state(9), 1);
         due("undo", t.undo(), true);
         due("the fault is 0", t.state(1), 0);
-        Checks.press(t, "1..");
+        press(t, "1..");
         due("a key by which nothing happens is kept", t.state(9), 3);
         TwinEntry r = keyed("5k6k");
         r.undo();
-        due("registers come back", Checks.number(r, 0), "500000000000E0");
+        due("registers come back", number(r, 0), "500000000000E0");
         TwinEntry f = formula("1+(2*3)");
         f.undo();
         due("the row comes back", f.state(5), 3);
         due("place", f.state(6), 2);
-        due("its numbers, too", Checks.press(f, "="), 0);
-        due("X", Checks.number(f, X), "700000000000E0");
+        due("its numbers, too", press(f, "="), 0);
+        due("X", number(f, X), "700000000000E0");
         TwinEntry p = keyed("9");
-        Checks.store(p, 0, 128, '1', '+', 'k');
-        Checks.press(p, "\u0090");
-        Checks.dueThrow("undo when a program runs", STATE, () -> p.undo());
+        store(p, 0, 128, '1', '+', 'k');
+        press(p, "\u0090");
+        dueThrow("undo when a program runs", STATE, () -> p.undo());
         p.run(500);
         due("two keys are kept", p.state(9), 2);
         due("undo the program", p.undo(), true);
-        due("as before its start", Checks.line(p), " 9");
-        due("register", Checks.number(p, 0), "0E0");
+        due("as before its start", line(p), " 9");
+        due("register", number(p, 0), "0E0");
         due("codes stay", p.code(1), (int) '1');
     }
 
@@ -1074,7 +982,7 @@ public final class PromisesTest {
         due("place", t.state(6), 1);
         due("no entry", t.state(7), 0);
         due("kept", t.state(9), 3);
-        Checks.press(t, "4");
+        press(t, "4");
         due("entry", t.state(7), 1);
         due("HAS", t.state(6), 2);
         due("values before the solver", t.state(10), 0);
