@@ -93,7 +93,8 @@ public final class BoundariesOfCallsTest extends Boundaries {
         due("nothing to undo", t.undo(), false);
         due("the text", t.wipe(), 0);
         dueThrow("OUT", INDEX, () -> t.out(0));
-        sentence(1, "At first all numbers are 0, LIFT is off, the row is empty, the place DONE, and there is no entry.");
+        sentence(1, "At first all numbers are 0, LIFT is off, the row is empty, the place DONE, and there is no "
+            + "entry.");
         for (int which = 0; which < 15; which++) {
             due("number " + which, number(t, which), "0E0");
         }
@@ -108,14 +109,14 @@ public final class BoundariesOfCallsTest extends Boundaries {
     }
 
     private static void firstOfSeveral() {
-        sentence(6, "Methods throw what their comments name, the one named first when several would do; a call that throws "
-            + "changes nothing.");
+        sentence(6, "Methods throw what their comments name, the one named first when several would do; a call that "
+            + "throws changes nothing.");
         dueRefusedWhileItRuns("model 2", t -> t.model(2));
         dueRefusedWhileItRuns("store at 93", t -> t.store(93, 1));
         dueRefusedWhileItRuns("store at -1", t -> t.store(-1, 1));
         dueRefusedWhileItRuns("solve of label 8", t -> t.solve(8));
         dueRefused("solve of label 8 with formulas", UNSUPPORTED, BoundariesOfCallsTest::formulaRuns, t -> t.solve(8));
-        dueRefused("solve of label -1 with formulas", UNSUPPORTED, BoundariesOfCallsTest::formulaRuns, t -> t.solve(-1));
+        dueRefused("solve of -1 with formulas", UNSUPPORTED, BoundariesOfCallsTest::formulaRuns, t -> t.solve(-1));
         Making program = () -> {
             TwinEntry t = programmed(128, 136);
             t.model(1);
@@ -134,8 +135,8 @@ public final class BoundariesOfCallsTest extends Boundaries {
     }
 
     private static void modelChanges() {
-        sentence(2, "Changes to a model, also to the same: X, Y, Z, T and LAST are 0, LIFT is off, the row is empty, the place "
-            + "DONE, there is no entry, and nothing can be undone.");
+        sentence(2, "Changes to a model, also to the same: X, Y, Z, T and LAST are 0, LIFT is off, the row is "
+            + "empty, the place DONE, there is no entry, and nothing can be undone.");
         for (int from = 0; from < 2; from++) {
             for (int to = 0; to < 2; to++) {
                 TwinEntry t = new TwinEntry();
@@ -176,8 +177,8 @@ public final class BoundariesOfCallsTest extends Boundaries {
     }
 
     private static void pressing() {
-        sentence(3, "Presses the keys in the eight bytes of a long, the lowest first, bytes 0 left out, until one fails or "
-            + "starts a program: 0, or the fault. (Keys behind that one are not pressed.)");
+        sentence(3, "Presses the keys in the eight bytes of a long, the lowest first, bytes 0 left out, until one "
+            + "fails or starts a program: 0, or the fault. (Keys behind that one are not pressed.)");
         TwinEntry t = new TwinEntry();
         due("no key", t.press(0), 0);
         due("nothing is kept by that", t.state(9), 0);
@@ -219,8 +220,8 @@ public final class BoundariesOfCallsTest extends Boundaries {
     }
 
     private static void running() {
-        sentence(4, "The program, or the one whose values the solver takes, makes at most so many steps (the solver goes on to "
-            + "the next value without a step between): 1 when something still runs then, else 0.");
+        sentence(4, "The program, or the one whose values the solver takes, makes at most so many steps (the solver "
+            + "goes on to the next value without a step between): 1 when something still runs then, else 0.");
         TwinEntry t = programmed(128, "1+", 136);
         due("nothing runs", t.run(1), 0);
         due("nothing runs, and no steps", t.run(0), 0);
@@ -273,8 +274,8 @@ public final class BoundariesOfCallsTest extends Boundaries {
     }
 
     private static void stopping() {
-        sentence(5, "What runs is over: a program where it is; of the solver all is as before it began. Answers whether "
-            + "something ran. (The fault that is shown stays.)");
+        sentence(5, "What runs is over: a program where it is; of the solver all is as before it began. Answers "
+            + "whether something ran. (The fault that is shown stays.)");
         TwinEntry t = programmed(128, "7k8", 136);
         press(t, "5" + CALL_0);
         t.run(3);
@@ -282,7 +283,7 @@ public final class BoundariesOfCallsTest extends Boundaries {
         due("where it is", line(t), " 8");
         due("register", number(t, 0), "700000000000E0");
         due("Y", number(t, Y), "700000000000E0");
-        due("nothing runs", t.state(2) + " " + t.state(3) + " " + t.state(4), "0 -1 0");
+        due("nothing runs", whatRuns(t), "0 -1 0");
         due("its start is kept", t.state(9), 2);
         due("nothing ran", t.stop(), false);
         press(t, "x");
@@ -314,8 +315,8 @@ public final class BoundariesOfCallsTest extends Boundaries {
     }
 
     private static void solving() {
-        sentence(6, "The solver begins for a label, and runs: 0; or fails at once: 7 when there is no such label. (Then the "
-            + "fault alone changes.)");
+        sentence(6, "The solver begins for a label, and runs: 0; or fails at once: 7 when there is no such label. "
+            + "(Then the fault alone changes.)");
         TwinEntry t = programmed(128, "5-", 0, 135, "6-", 0);
         press(t, "1=9");
         due("label 7", t.solve(7), 0);
@@ -342,8 +343,8 @@ public final class BoundariesOfCallsTest extends Boundaries {
     }
 
     private static void solveIsRefused() {
-        sentence(6, "IllegalStateException: a program or the solver runs; UnsupportedOperationException: the model is 1; "
-            + "IllegalArgumentException: label is not 0 .. 7.");
+        sentence(6, "IllegalStateException: a program or the solver runs; UnsupportedOperationException: the model "
+            + "is 1; IllegalArgumentException: label is not 0 .. 7.");
         dueRefusedWhileItRuns("solve", t -> t.solve(0));
         dueRefused("solve with formulas", UNSUPPORTED, BoundariesOfCallsTest::formulaRuns, t -> t.solve(0));
         for (int label : new int[] {-1, 8, 128, Integer.MAX_VALUE, Integer.MIN_VALUE}) {
@@ -380,7 +381,8 @@ public final class BoundariesOfCallsTest extends Boundaries {
     }
 
     private static void storing() {
-        sentence(11, "The bytes of a long, the lowest first, become the codes at the places place .. place + 7. (Also bytes 0.)");
+        sentence(11, "The bytes of a long, the lowest first, become the codes at the places place .. place + 7. "
+            + "(Also bytes 0.)");
         TwinEntry t = new TwinEntry();
         t.store(0, 0x0807060504030201L);
         t.store(92, 0xFF00FE0080017F00L);
@@ -395,7 +397,8 @@ public final class BoundariesOfCallsTest extends Boundaries {
             places += " " + t.code(place);
         }
         due("bytes 0, too", places, " 1 0 0 0 0 0 0 0 9 0");
-        sentence(11, "IllegalStateException: a program or the solver runs; IndexOutOfBoundsException: place is not 0 .. 92.");
+        sentence(11, "IllegalStateException: a program or the solver runs; IndexOutOfBoundsException: place is not "
+            + "0 .. 92.");
         dueRefusedWhileItRuns("store", u -> u.store(1, 0));
         for (int place : new int[] {-1, 93, 99, 100, Integer.MAX_VALUE, Integer.MIN_VALUE}) {
             dueRefused("store at " + place, INDEX, BoundariesOfCallsTest::nothingRuns, u -> u.store(place, -1));
@@ -456,21 +459,33 @@ public final class BoundariesOfCallsTest extends Boundaries {
         }
     }
 
+    /** X when the row that comes back is closed. */
+    private static void dueRowUndone(String keys, String key, String want) {
+        TwinEntry t = formula(keys);
+        int things = t.state(5);
+        due("key " + key, press(t, key), 0);
+        due("undo", t.undo(), true);
+        due("things of " + keys, t.state(5), things);
+        due("closed", press(t, "="), 0);
+        due("X by " + keys, number(t, X), want);
+    }
+
     private static void undoing() {
-        sentence(17, "Kept are numbers, registers, LIFT, row, place and entry as they were before each key pressed that did not "
-            + "fail, and before the solver began when it has found; the latest five of these.");
-        for (String keys : new String[] {"5", "1=2+3", "1.5NE", "2E3NB", "5kCBa", "3S4W8", "1=2=3", "DWLQS", "+-*tj", "12BBB"}) {
+        sentence(17, "Kept are numbers, registers, LIFT, row, place and entry as they were before each key pressed "
+            + "that did not fail, and before the solver began when it has found; the latest five of these.");
+        String[] onStack = {"5", "1=2+3", "1.5NE", "2E3NB", "5kCBa", "3S4W8", "1=2=3", "DWLQS", "+-*tj", "12BBB"};
+        for (String keys : onStack) {
             dueUndone(0, keys);
         }
         for (String keys : new String[] {"1+2*3", "*3+4=", "(1)Q=", "((1))", "5k+aS", "1.E5N", "2BCNB"}) {
             dueUndone(1, keys);
         }
-        TwinEntry row = formula("1+2*(3-4");
-        press(row, "=");
-        due("the row comes back", row.undo(), true);
-        due("its things", row.state(5), 4);
-        due("closed again", press(row, "="), 0);
-        due("with its numbers", number(row, X), "-100000000000E0");
+        dueRowUndone("1+2*(3-4", "=", "-100000000000E0");
+        // The key has put another thing into the row.
+        dueRowUndone("3*2", "+", "600000000000E0");
+        dueRowUndone("3-2", "*", "100000000000E0");
+        dueRowUndone("(1+(2+(3+(4*5", "+", "260000000000E1");
+        dueRowUndone("(1+(2+(3+(4*5", "-", "260000000000E1");
         TwinEntry failed = keyed("12");
         press(failed, "x");
         press(failed, "(");
@@ -492,7 +507,8 @@ public final class BoundariesOfCallsTest extends Boundaries {
     }
 
     private static void latestFive() {
-        sentence(17, "What is kept latest for undoing comes back, and is not kept any more: true; false when nothing is kept.");
+        sentence(17, "What is kept latest for undoing comes back, and is not kept any more: true; false when "
+            + "nothing is kept.");
         dueUndone(0, "123456");
         dueUndone(0, "1=2+3*4-5/6S7Q");
         dueUndone(1, "(1+2)*3-(4/5)+6");
@@ -533,8 +549,8 @@ public final class BoundariesOfCallsTest extends Boundaries {
     }
 
     private static void programsAndUndoing() {
-        sentence(17, "(Keys of a program are not kept one by one: what was before the key that started it is, however it ends; "
-            + "of a solver that fails or is stopped nothing is kept.");
+        sentence(17, "(Keys of a program are not kept one by one: what was before the key that started it is, "
+            + "however it ends; of a solver that fails or is stopped nothing is kept.");
         for (int end : new int[] {0, 152, 153, 200, 143, -1}) {
             TwinEntry t = programmed(128, "78k+", end < 0 ? 136 : end);
             press(t, "1=2");
@@ -577,24 +593,28 @@ public final class BoundariesOfCallsTest extends Boundaries {
         dueRefused("undo of nothing while the solver runs", STATE, nothingKept, t -> t.undo());
     }
 
+    private static String whatRuns(TwinEntry t) {
+        return t.state(2) + " " + t.state(3) + " " + t.state(4);
+    }
+
     private static void states() {
         sentence(18, "Of the calculator: 0 the model, 1 the fault that is shown");
         due("0", nothingRuns().state(0) + " " + formulaRuns().state(0), "0 1");
         TwinEntry failed = formulaRuns();
         press(failed, "(");
         due("1", formulaRuns().state(1) + " " + failed.state(1), "0 5");
-        sentence(18, "5 how many things the row has, 6 the place DONE, WANTS or HAS, 7 whether there is an entry (1) or not (0), 8 "
-            + "whether LIFT is on, 9 how many can be undone");
+        sentence(18, "5 how many things the row has, 6 the place DONE, WANTS or HAS, 7 whether there is an entry "
+            + "(1) or not (0), 8 whether LIFT is on, 9 how many can be undone");
         due("5", formula("").state(5) + " " + formulaRuns().state(5) + " " + formula("((((((((").state(5), "0 3 8");
         due("6", formula("1=").state(6) + " " + formula("1+").state(6) + " " + formula("1").state(6), "0 1 2");
         due("7", keyed("5").state(7) + " " + keyed("5=").state(7), "1 0");
         due("8", keyed("5W").state(8) + " " + keyed("5=").state(8), "1 0");
         due("9", keyed("").state(9) + " " + keyed("1234").state(9) + " " + keyed("123456").state(9), "0 4 5");
-        sentence(18, "2 what runs (0 nothing, 1 a program, 2 the solver), 3 the place of what runs (100 for all behind 99, -1 when "
-            + "nothing runs), 4 how many calls are under way there (0 when nothing runs)");
-        due("nothing runs", nothingRuns().state(2) + " " + nothingRuns().state(3) + " " + nothingRuns().state(4), "0 -1 0");
-        due("a program", programRuns().state(2) + " " + programRuns().state(3) + " " + programRuns().state(4), "1 3 0");
-        due("the solver", solverRuns().state(2) + " " + solverRuns().state(3) + " " + solverRuns().state(4), "2 3 0");
+        sentence(18, "2 what runs (0 nothing, 1 a program, 2 the solver), 3 the place of what runs (100 for all "
+            + "behind 99, -1 when nothing runs), 4 how many calls are under way there (0 when nothing runs)");
+        due("nothing runs", whatRuns(nothingRuns()), "0 -1 0");
+        due("a program", whatRuns(programRuns()), "1 3 0");
+        due("the solver", whatRuns(solverRuns()), "2 3 0");
         TwinEntry t = new TwinEntry();
         store(t, 92, 0, 0, 0, 0, 0, 128, 145, 129);
         press(t, "5" + CALL_0);
@@ -607,7 +627,8 @@ public final class BoundariesOfCallsTest extends Boundaries {
         press(t, "5" + CALL_0);
         t.run(1);
         due("two behind 99", t.state(3), 100);
-        sentence(18, "10 how many values the solver has begun to take since it began last (0 before); -1 for another what.");
+        sentence(18, "10 how many values the solver has begun to take since it began last (0 before); -1 for "
+            + "another what.");
         TwinEntry s = programmed(128, "5-", 0);
         press(s, "1=9");
         due("before", s.state(10), 0);
@@ -633,8 +654,9 @@ public final class BoundariesOfCallsTest extends Boundaries {
     }
 
     private static void fault() {
-        sentence(18, "THE FAULT that is shown is at first 0; it is that by which a key, a program or the solver failed last; a "
-            + "key that does not fail, undo() that answers true, model() and solve() that answers 0 make it 0.");
+        sentence(18, "THE FAULT that is shown is at first 0; it is that by which a key, a program or the solver "
+            + "failed last; a key that does not fail, undo() that answers true, model() and solve() that answers 0 "
+            + "make it 0.");
         TwinEntry t = programmed(128, "0I", 0, 129, "S", 0);
         due("at first", t.state(1), 0);
         press(t, "1=2");

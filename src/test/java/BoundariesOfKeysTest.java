@@ -31,8 +31,8 @@ public final class BoundariesOfKeysTest extends Boundaries {
     }
 
     private static void rowAndPlace() {
-        sentence(3, "a ROW of at most 8 things, each an open bracket, or a number with one of + - * /; a PLACE, DONE (0), WANTS (1) "
-            + "or HAS (2); and perhaps an ENTRY.");
+        sentence(3, "a ROW of at most 8 things, each an open bracket, or a number with one of + - * /; a PLACE, "
+            + "DONE (0), WANTS (1) or HAS (2); and perhaps an ENTRY.");
         TwinEntry t = formula("9+8*(7-6/(5+4*");
         due("things", t.state(5), 8);
         due("WANTS", t.state(6), WANTS);
@@ -70,8 +70,8 @@ public final class BoundariesOfKeysTest extends Boundaries {
     }
 
     private static void functions() {
-        sentence(3, "Q the square root of X, S its square, I 1 divided by X, each rounded, take the place of X; N (without "
-            + "an entry) changes the sign of X; C, and B (without an entry), make X 0.");
+        sentence(3, "Q the square root of X, S its square, I 1 divided by X, each rounded, take the place of X; N "
+            + "(without an entry) changes the sign of X; C, and B (without an entry), make X 0.");
         dueX("0Q", "0E0");
         dueX("0S", "0E0");
         dueX("1E99NQ", "316227766017E-50");
@@ -161,8 +161,8 @@ public final class BoundariesOfKeysTest extends Boundaries {
         due("S", stack(keyed("1=2=3=2S")), " 4 3 2 1 2");
         due("I", stack(keyed("1=2=3=1I")), " 1 3 2 1 1");
         due("N, C, B and storing leave LAST", stack(keyed("3SNCBk=")), " 0 0 0 0 3");
-        sentence(3, "W exchanges X and Y. D: X becomes Y, Y becomes Z, Z becomes T, T becomes X, all as before. L pushes "
-            + "LAST.");
+        sentence(3, "W exchanges X and Y. D: X becomes Y, Y becomes Z, Z becomes T, T becomes X, all as before. L "
+            + "pushes LAST.");
         due("W", stack(keyed("1=2=3=4W")), " 3 4 2 1 0");
         due("D", stack(keyed("1=2=3=4D")), " 3 2 1 4 0");
         due("D four times", stack(keyed("1=2=3=4DDDD")), " 4 3 2 1 0");
@@ -170,8 +170,8 @@ public final class BoundariesOfKeysTest extends Boundaries {
     }
 
     private static void lift() {
-        sentence(3, "LIFT is off behind '=', C, and B without an entry; on behind all other keys of this paragraph and the "
-            + "one above.");
+        sentence(3, "LIFT is off behind '=', C, and B without an entry; on behind all other keys of this paragraph "
+            + "and the one above.");
         for (String key : new String[] {"=", "C", "B"}) {
             due("LIFT behind " + key + ", which was on", keyed("1W" + key).state(8), 0);
             due("LIFT behind " + key + ", which was off", keyed("1=" + key).state(8), 0);
@@ -191,8 +191,8 @@ public final class BoundariesOfKeysTest extends Boundaries {
     }
 
     private static void placeHas() {
-        sentence(3, "When an entry begins, and with recalling, Q, S, I, N, C, B (these two without an entry), X becomes "
-            + "what it must, and the place HAS.");
+        sentence(3, "When an entry begins, and with recalling, Q, S, I, N, C, B (these two without an entry), X "
+            + "becomes what it must, and the place HAS.");
         for (char key : "0.EajQSINCB".toCharArray()) {
             due("place behind " + key + " from DONE", formula("1=" + key).state(6), HAS);
             due("place behind " + key + " from WANTS", formula("1+" + key).state(6), HAS);
@@ -208,8 +208,8 @@ public final class BoundariesOfKeysTest extends Boundaries {
     }
 
     private static void closing() {
-        sentence(3, "To CLOSE the last thing of the row: it goes; if it was a number with an operation, X becomes this "
-            + "number with X by that operation, rounded (number - X, number / X).");
+        sentence(3, "To CLOSE the last thing of the row: it goes; if it was a number with an operation, X becomes "
+            + "this number with X by that operation, rounded (number - X, number / X).");
         dueFormula("5-3=", "200000000000E0");
         dueFormula("6/3=", "200000000000E0");
         dueFormula("2/3=", "666666666667E-1");
@@ -228,13 +228,13 @@ public final class BoundariesOfKeysTest extends Boundaries {
             due(key + " from DONE", press(formula(""), key), 0);
             due(key + " from HAS", press(formula("1"), key), 0);
         }
-        sentence(3, "as long as the last thing of the row is a number with an operation that binds as tightly as the key's "
-            + "or tighter (* and / bind tighter than + and -), it is closed; then X with the key's operation comes to the "
-            + "end of the row, and the place is WANTS.");
+        sentence(3, "as long as the last thing of the row is a number with an operation that binds as tightly as "
+            + "the key's or tighter (* and / bind tighter than + and -), it is closed; then X with the key's "
+            + "operation comes to the end of the row, and the place is WANTS.");
         String[] row = {
             "1+2+", "1", "1+2-", "1", "1-2+", "1", "1-2-", "1", "1+2*", "2", "1-2/", "2", "1*2+", "1", "1/2-", "1",
-            "1*2*", "1", "1*2/", "1", "1/2*", "1", "1/2/", "1", "1+2*3+", "1", "1+2*3*", "2", "1+(2+", "3", "1*(2*", "3",
-            "(1*2+", "2", "+", "1"
+            "1*2*", "1", "1*2/", "1", "1/2*", "1", "1/2/", "1", "1+2*3+", "1", "1+2*3*", "2", "1+(2+", "3",
+            "1*(2*", "3", "(1*2+", "2", "+", "1"
         };
         for (int i = 0; i < row.length; i += 2) {
             due("things behind " + row[i], formula(row[i]).state(5), row[i + 1]);
@@ -260,8 +260,8 @@ public final class BoundariesOfKeysTest extends Boundaries {
     }
 
     private static void closeBracket() {
-        sentence(3, "): fault 5 if the place is not HAS, or the row has no open bracket; things are closed until an open "
-            + "bracket is the last; that goes, HAS.");
+        sentence(3, "): fault 5 if the place is not HAS, or the row has no open bracket; things are closed until an "
+            + "open bracket is the last; that goes, HAS.");
         dueFails(() -> formula("("), ")", 5);
         dueFails(() -> formula("(1+"), ")", 5);
         dueFails(() -> formula(""), ")", 5);
@@ -324,7 +324,8 @@ public final class BoundariesOfKeysTest extends Boundaries {
     }
 
     private static void liftInFormulas() {
-        sentence(3, "(LIFT changes only when an entry ends, and when B leaves nothing of one; Y, Z, T and LAST stay.)");
+        sentence(3, "(LIFT changes only when an entry ends, and when B leaves nothing of one; Y, Z, T and LAST "
+            + "stay.)");
         TwinEntry off = formula("");
         for (char key : "CQSN=B+(akC)-t(B)*a/".toCharArray()) {
             due("key " + key, press(off, String.valueOf(key)), 0);

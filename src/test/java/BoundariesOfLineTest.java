@@ -74,12 +74,13 @@ public final class BoundariesOfLineTest extends Boundaries {
     }
 
     private static void entries() {
-        sentence(7, "Otherwise with an entry: '-' or a blank by its sign, its row as it was keyed, and with an exponent part E, "
-            + "'-' or '+' by its sign, and its digits.");
+        sentence(7, "Otherwise with an entry: '-' or a blank by its sign, its row as it was keyed, and with an "
+            + "exponent part E, '-' or '+' by its sign, and its digits.");
         String[] entries = {
-            "0", " 0", "0N", "-0", ".", " .", ".N", "-.", "007", " 007", "00.", " 00.", ".50", " .50", "1E", " 1E+", "1EN", " 1E-",
-            "1E0", " 1E+0", "1E00", " 1E+00", "1E05", " 1E+05", "1E5N", " 1E-5", "1E05N", " 1E-05", "1NE05", "-1E+05",
-            "000000000000", " 000000000000", ".000000000000", " .000000000000", "1.E", " 1.E+", "0.0E0", " 0.0E+0"
+            "0", " 0", "0N", "-0", ".", " .", ".N", "-.", "007", " 007", "00.", " 00.", ".50", " .50", "1E", " 1E+",
+            "1EN", " 1E-", "1E0", " 1E+0", "1E00", " 1E+00", "1E05", " 1E+05", "1E5N", " 1E-5",
+            "1E05N", " 1E-05", "1NE05", "-1E+05", "000000000000", " 000000000000",
+            ".000000000000", " .000000000000", "1.E", " 1.E+", "0.0E0", " 0.0E+0"
         };
         for (int i = 0; i < entries.length; i += 2) {
             dueLine(entries[i], entries[i + 1]);
@@ -104,9 +105,9 @@ public final class BoundariesOfLineTest extends Boundaries {
     }
 
     private static void scientific() {
-        sentence(7, "SCIENTIFIC: '-' if X is below 0, else a blank; d cut to n + 1 digits, rounded likewise (to the next, of "
-            + "two the even one): the first of them, a point, the others; E, '-' or '+' by the exponent's sign ('+' for 0), and "
-            + "its two digits.");
+        sentence(7, "SCIENTIFIC: '-' if X is below 0, else a blank; d cut to n + 1 digits, rounded likewise (to the "
+            + "next, of two the even one): the first of them, a point, the others; E, '-' or '+' by the exponent's "
+            + "sign ('+' for 0), and its two digits.");
         dueScientific(0, "5=", " 5.E+00");
         dueScientific(0, "5N=", "-5.E+00");
         dueScientific(9, "123456789012=", " 1.234567890E+11");
@@ -129,8 +130,8 @@ public final class BoundariesOfLineTest extends Boundaries {
     }
 
     private static void roundedUpToTen() {
-        sentence(7, "If d is rounded up to a 1 with n + 1 zeros behind, the last zero is left out, and the exponent is 1 "
-            + "higher; but if that would be 100, d is cut without rounding.");
+        sentence(7, "If d is rounded up to a 1 with n + 1 zeros behind, the last zero is left out, and the exponent "
+            + "is 1 higher; but if that would be 100, d is cut without rounding.");
         dueScientific(2, "9.995=", " 1.00E+01");
         dueScientific(2, "9.99499999999=", " 9.99E+00");
         dueScientific(2, "9.985=", " 9.98E+00");
@@ -164,9 +165,9 @@ public final class BoundariesOfLineTest extends Boundaries {
     }
 
     private static void fixed() {
-        sentence(7, "FIXED: the sign likewise; the size of X rounded (likewise) to p digits behind the point, p being n, but 11 "
-            + "- e if that is less and X is not 0: its whole part without zeros before it, but at least one digit; a point; p "
-            + "digits.");
+        sentence(7, "FIXED: the sign likewise; the size of X rounded (likewise) to p digits behind the point, p "
+            + "being n, but 11 - e if that is less and X is not 0: its whole part without zeros before it, but at "
+            + "least one digit; a point; p digits.");
         dueFixed(0, "0=", " 0.");
         dueFixed(9, "0=", " 0.000000000");
         dueFixed(9, "1=", " 1.000000000");
@@ -202,7 +203,8 @@ public final class BoundariesOfLineTest extends Boundaries {
     }
 
     private static void scientificInstead() {
-        sentence(7, "SCIENTIFIC with n is taken instead if X is not 0, and e is above 11 or all these digits would be 0.");
+        sentence(7, "SCIENTIFIC with n is taken instead if X is not 0, and e is above 11 or all these digits would "
+            + "be 0.");
         dueFixed(2, "999999999999=", " 999999999999.");
         dueFixed(2, "999999999999N=", "-999999999999.");
         dueFixed(2, "1E12=", " 1.00E+12");
@@ -225,8 +227,8 @@ public final class BoundariesOfLineTest extends Boundaries {
     }
 
     private static void shown() {
-        sentence(7, "Characters 8 * part .. 8 * part + 7 of the line in the bytes of a long, the first in the lowest; bytes 0 "
-            + "behind the 20th.");
+        sentence(7, "Characters 8 * part .. 8 * part + 7 of the line in the bytes of a long, the first in the "
+            + "lowest; bytes 0 behind the 20th.");
         TwinEntry t = keyed("123456.789012NE9N9");
         due("part 0", t.shown(0), pack("-123456."));
         due("part 1", t.shown(1), pack("789012E-"));

@@ -25,8 +25,8 @@ public final class BoundariesOfNumbersTest extends Boundaries {
     }
 
     private static void greatestAndLeast() {
-        sentence(8, "NUMBERS are 0, and those with a SIGN (1 or -1), 12 DIGITS d (a whole number 10^11 .. 10^12 - 1) "
-            + "and an EXPONENT e (-99 .. 99), worth sign * d * 10^(e - 11).");
+        sentence(8, "NUMBERS are 0, and those with a SIGN (1 or -1), 12 DIGITS d (a whole number 10^11 .. 10^12 - "
+            + "1) and an EXPONENT e (-99 .. 99), worth sign * d * 10^(e - 11).");
         dueX("9.99999999999E99", "999999999999E99");
         dueX("9.99999999999NE99", "-999999999999E99");
         dueX("1E9N9", "100000000000E-99");
@@ -37,8 +37,8 @@ public final class BoundariesOfNumbersTest extends Boundaries {
     }
 
     private static void ties() {
-        sentence(3, "of the numbers with 12 digits and any exponent it becomes the one next to it, of two that are as "
-            + "near the one with an even d.");
+        sentence(3, "of the numbers with 12 digits and any exponent it becomes the one next to it, of two that are "
+            + "as near the one with an even d.");
         dueX("100000000000=.5+", "100000000000E11");
         dueX("100000000001=.5+", "100000000002E11");
         dueX("100000000001=.5-", "100000000000E11");
@@ -60,8 +60,8 @@ public final class BoundariesOfNumbersTest extends Boundaries {
     }
 
     private static void nextToTies() {
-        sentence(3, "What an operation comes to exactly is ROUNDED: of the numbers with 12 digits and any exponent it "
-            + "becomes the one next to it");
+        sentence(3, "What an operation comes to exactly is ROUNDED: of the numbers with 12 digits and any exponent "
+            + "it becomes the one next to it");
         dueX("100000000000=.500000000001+", "100000000001E11");
         dueX("100000000001=.499999999999+", "100000000001E11");
         dueX("100000000001=.499999999999-", "100000000001E11");
@@ -85,6 +85,22 @@ public final class BoundariesOfNumbersTest extends Boundaries {
         dueX("1=1-", "0E0");
         dueX("1.00000000001=1-", "100000000000E-11");
         dueX("1=.999999999999-", "100000000000E-12");
+        // A bit far behind the half decides, the even one notwithstanding.
+        dueX("100000000000=10000.5000001+", "100000010001E11");
+        dueX("100000000000=1000.50000001+", "100000001001E11");
+        dueX("100000000000=1.50000000001+", "100000000002E11");
+        dueX("500000000000=10001.4999999-", "499999989999E11");
+        dueX("100000000001=150000000001*", "150000000003E22");
+        dueX("704858496628=456514296504/", "154400092621E0");
+        dueX("283818302184=894199725400/", "317399227625E-1");
+        dueX("836460296986Q", "914582034039E5");
+        dueX("29544561994.1Q", "171885316401E5");
+        // Nothing of the operation before counts.
+        dueX("100000000000k.5l1=3/ab+", "100000000000E11");
+        dueX("100000000000k100000.5l1=3/ab+", "100000100000E11");
+        dueX("100000000003k1.5l1=3/ab*", "150000000004E11");
+        dueX("246913578025k2l1=3/ab/", "123456789012E11");
+        dueX("4k3N=2*aQ", "200000000000E0");
         // Squares, roots and quotients next to halves.
         dueX("1.00000000001Q", "100000000000E0");
         dueX("1.00000000003Q", "100000000001E0");
@@ -141,8 +157,8 @@ public final class BoundariesOfNumbersTest extends Boundaries {
     }
 
     private static void rowOfAnEntry() {
-        sentence(3, "AN ENTRY has a sign, a row of up to 12 digits (0 .. 9) with perhaps a point before, among or behind "
-            + "them, and perhaps an EXPONENT PART, with a sign of its own and up to two digits.");
+        sentence(3, "AN ENTRY has a sign, a row of up to 12 digits (0 .. 9) with perhaps a point before, among or "
+            + "behind them, and perhaps an EXPONENT PART, with a sign of its own and up to two digits.");
         dueLine("123456789012", " 123456789012");
         dueLine(".123456789012", " .123456789012");
         dueLine("123456.789012", " 123456.789012");
@@ -154,8 +170,8 @@ public final class BoundariesOfNumbersTest extends Boundaries {
     }
 
     private static void worthOfAnEntry() {
-        sentence(3, "It is worth the digits, read with their point (0 without digits), 0 less that if its sign is minus, "
-            + "times 10 to its exponent part (to 0 without digits there).");
+        sentence(3, "It is worth the digits, read with their point (0 without digits), 0 less that if its sign is "
+            + "minus, times 10 to its exponent part (to 0 without digits there).");
         dueX(".", "0E0");
         dueX(".N", "0E0");
         dueX("000000000000", "0E0");
@@ -197,8 +213,9 @@ public final class BoundariesOfNumbersTest extends Boundaries {
     }
 
     private static void digits() {
-        sentence(3, "a digit comes to the end of the exponent part, if there is one and it has fewer than two digits, or "
-            + "without such a part to the end of the row, if that has fewer than 12 digits; otherwise nothing happens.");
+        sentence(3, "a digit comes to the end of the exponent part, if there is one and it has fewer than two "
+            + "digits, or without such a part to the end of the row, if that has fewer than 12 digits; otherwise "
+            + "nothing happens.");
         dueLine("12345678901", " 12345678901");
         dueLine("1234567890123", " 123456789012");
         dueX("1234567890123", "123456789012E11");
@@ -218,8 +235,8 @@ public final class BoundariesOfNumbersTest extends Boundaries {
     }
 
     private static void point() {
-        sentence(3, "'.' comes to the end of the row, if there is neither a point nor an exponent part; otherwise nothing "
-            + "happens.");
+        sentence(3, "'.' comes to the end of the row, if there is neither a point nor an exponent part; otherwise "
+            + "nothing happens.");
         dueLine("1.2.3", " 1.23");
         dueLine("..", " .");
         dueLine("1E.5", " 1E+5");
@@ -230,8 +247,8 @@ public final class BoundariesOfNumbersTest extends Boundaries {
     }
 
     private static void exponentPart() {
-        sentence(3, "E begins an exponent part, with the sign plus, if there is none; if the row has no digits then, it "
-            + "becomes the digit 1 alone.");
+        sentence(3, "E begins an exponent part, with the sign plus, if there is none; if the row has no digits "
+            + "then, it becomes the digit 1 alone.");
         dueLine("5E", " 5E+");
         dueLine("5E3E4", " 5E+34");
         dueLine("5ENE", " 5E-");
@@ -262,8 +279,8 @@ public final class BoundariesOfNumbersTest extends Boundaries {
     }
 
     private static void takingAway() {
-        sentence(3, "B takes away the last digit of the exponent part, or, if that has none, the part; without such a part "
-            + "the last digit or point of the row");
+        sentence(3, "B takes away the last digit of the exponent part, or, if that has none, the part; without such "
+            + "a part the last digit or point of the row");
         dueLine("12.5E34B", " 12.5E+3");
         dueLine("12.5E34BB", " 12.5E+");
         dueLine("12.5E34BBB", " 12.5");
@@ -271,6 +288,9 @@ public final class BoundariesOfNumbersTest extends Boundaries {
         dueLine("12.5E34BBBBB", " 12");
         dueLine("12.5E34BBBBBB", " 1");
         dueLine("12.5E34NB", " 12.5E-3");
+        dueLine("12.5E10B", " 12.5E+1");
+        dueLine("12.5E09B", " 12.5E+0");
+        dueLine("10B", " 1");
         dueLine("12.5ENB", " 12.5");
         dueLine(".5B", " .");
         dueLine("5NE3BB", "-5");
@@ -280,7 +300,8 @@ public final class BoundariesOfNumbersTest extends Boundaries {
     }
 
     private static void nothingLeft() {
-        sentence(3, "if nothing is left in that, there is no entry any more, X is 0, and LIFT is off (the place stays).");
+        sentence(3, "if nothing is left in that, there is no entry any more, X is 0, and LIFT is off (the place "
+            + "stays).");
         for (String keys : new String[] {"4W5B", "4W5NB", "4W.B", "4W12BB", "4WEBB", "4W.5E1BBBB"}) {
             TwinEntry t = keyed(keys);
             due("no entry behind " + keys, t.state(7), 0);
@@ -314,8 +335,8 @@ public final class BoundariesOfNumbersTest extends Boundaries {
     }
 
     private static void entryTooSmallOrTooLarge() {
-        sentence(3, "As long as there is an entry, X is what it is worth (0 if that is less in size than the least number "
-            + "that is not 0; fault 2 if it is greater in size than the greatest).");
+        sentence(3, "As long as there is an entry, X is what it is worth (0 if that is less in size than the least "
+            + "number that is not 0; fault 2 if it is greater in size than the greatest).");
         TwinEntry t = new TwinEntry();
         String[] want = {"100000000000E0", "120000000000E1", "120000000000E1", "125000000000E1", "-125000000000E1"};
         for (int i = 0; i < want.length; i++) {

@@ -76,8 +76,8 @@ public final class BoundariesOfProgramsTest extends Boundaries {
     }
 
     private static void labelsAndRegisters() {
-        sentence(4, "A program may have all keys, and, k being 0 .. 7 and r 0 .. 9: 128 + k LABEL k; 136 + k GO to it; 144 "
-            + "+ k CALL it; 152 RETURN; 153 STOP");
+        sentence(4, "A program may have all keys, and, k being 0 .. 7 and r 0 .. 9: 128 + k LABEL k; 136 + k GO to "
+            + "it; 144 + k CALL it; 152 RETURN; 153 STOP");
         for (int k = 0; k < 8; k++) {
             TwinEntry go = ready(k == 1 ? CALL_0 : CALL_1, k == 1 ? 128 : 129, 136 + k, 0, 128 + k, "6");
             due("GO to " + k, go.run(2), 1);
@@ -159,8 +159,8 @@ public final class BoundariesOfProgramsTest extends Boundaries {
     }
 
     private static void starting() {
-        sentence(3, "144 + k, pressed, ends the entry, and a program RUNS, from the place behind the label, with no calls "
-            + "under way.");
+        sentence(3, "144 + k, pressed, ends the entry, and a program RUNS, from the place behind the label, with no "
+            + "calls under way.");
         TwinEntry t = ready("C5N" + CALL_0, 0, 128, "7");
         due("no entry", t.state(7), 0);
         due("X stays", number(t, X), "-500000000000E0");
@@ -184,8 +184,8 @@ public final class BoundariesOfProgramsTest extends Boundaries {
     }
 
     private static void steps() {
-        sentence(4, "A STEP does the code at its place, and goes on to the next place: a key does what it does when it is "
-            + "pressed; a label does nothing; GO goes on behind the label");
+        sentence(4, "A STEP does the code at its place, and goes on to the next place: a key does what it does when "
+            + "it is pressed; a label does nothing; GO goes on behind the label");
         TwinEntry t = after(0, "3=4", 128, "+", 130, 131, 137, "9", 129, "S");
         int[] place = {2, 3, 4, 7, 8};
         for (int i = 0; i < place.length; i++) {
@@ -205,8 +205,8 @@ public final class BoundariesOfProgramsTest extends Boundaries {
     }
 
     private static void calls() {
-        sentence(4, "CALL does, too, and is under way then (fault 8, told behind fault 7, if 4 are already); RETURN goes on "
-            + "behind the latest call under way, which is over then");
+        sentence(4, "CALL does, too, and is under way then (fault 8, told behind fault 7, if 4 are already); RETURN "
+            + "goes on behind the latest call under way, which is over then");
         Object[] chain = {128, 145, 0, 129, 146, 152, 130, 147, 152, 131, 148, 152, 132, 144, 152};
         TwinEntry t = after(4, "", chain);
         due("four calls are under way", t.state(4), 4);
@@ -234,8 +234,8 @@ public final class BoundariesOfProgramsTest extends Boundaries {
     }
 
     private static void ends() {
-        sentence(4, "The program is over, and nothing more is done, at a code 0, behind the place 99, at STOP, and at RETURN "
-            + "when no call is under way; to see that is a step, too.");
+        sentence(4, "The program is over, and nothing more is done, at a code 0, behind the place 99, at STOP, and "
+            + "at RETURN when no call is under way; to see that is a step, too.");
         TwinEntry zero = ready(CALL_0, 128, "1", 0, "2");
         dueEnd("a code 0", zero, 2);
         due("nothing more is done", line(zero), " 1");
@@ -270,8 +270,8 @@ public final class BoundariesOfProgramsTest extends Boundaries {
     }
 
     private static void entriesInPrograms() {
-        sentence(4, "GO, CALL, RETURN (also without a call under way), TEST and COUNT first end an entry; a label, STOP and 0 "
-            + "leave it.");
+        sentence(4, "GO, CALL, RETURN (also without a call under way), TEST and COUNT first end an entry; a label, "
+            + "STOP and 0 leave it.");
         for (int code : new int[] {136, 137, 144, 145, 152, 154, 155, 156, 165}) {
             TwinEntry t = ready("C" + CALL_0, 128, "5", code, 0, 129);
             t.run(2);
@@ -309,8 +309,8 @@ public final class BoundariesOfProgramsTest extends Boundaries {
     }
 
     private static void stepsThatFail() {
-        sentence(4, "When a step fails by a fault, also by 1 for codes above 165 and those that are no keys, the program is "
-            + "over, and what the step would have changed is not changed.");
+        sentence(4, "When a step fails by a fault, also by 1 for codes above 165 and those that are no keys, the "
+            + "program is over, and what the step would have changed is not changed.");
         for (int code : new int[] {166, 167, 200, 255, 1, ' ', 'A', '`', 'u', 'x', 127, '(', ')'}) {
             dueStepFails(() -> after(1, "C", 128, "5", code, "6"), 1);
         }
@@ -373,8 +373,8 @@ public final class BoundariesOfProgramsTest extends Boundaries {
     }
 
     private static void valuesAreTaken() {
-        sentence(6, "X, Y, Z, T become v, LIFT is on, there is no entry, and the program runs from the place behind label k, "
-            + "with no calls under way, until it is over; the value is X then.");
+        sentence(6, "X, Y, Z, T become v, LIFT is on, there is no entry, and the program runs from the place behind "
+            + "label k, with no calls under way, until it is over; the value is X then.");
         // The program is over in a call, with an entry and LIFT off.
         TwinEntry t = solving(0, "C1=2=3=4", 0, 128, 145, 0, 129, "CC", "5", 153);
         for (int value = 1; value <= 2; value++) {
@@ -414,8 +414,8 @@ public final class BoundariesOfProgramsTest extends Boundaries {
     }
 
     private static void valueOfB() {
-        sentence(6, "Otherwise that of b; if it is 0, b is found, and both ends are b; if it has the same sign as the other "
-            + "one, that is fault 9.");
+        sentence(6, "Otherwise that of b; if it is 0, b is found, and both ends are b; if it has the same sign as "
+            + "the other one, that is fault 9.");
         TwinEntry t = solved("9=5", 128, "5-", 0);
         due("X, Y, Z, T", stack(t), " 5 0 5 5 5");
         due("two values", t.state(10), 2);
@@ -521,7 +521,8 @@ public final class BoundariesOfProgramsTest extends Boundaries {
     }
 
     private static void fromValueToValue() {
-        sentence(6, "Registers and LAST are as the programs left them, from value to value, and when an end is found.");
+        sentence(6, "Registers and LAST are as the programs left them, from value to value, and when an end is "
+            + "found.");
         TwinEntry t = solving(0, "8k9=5", 128, "k5-", 0);
         due("register before", number(t, 0), "800000000000E0");
         t.run(4);
@@ -536,8 +537,8 @@ public final class BoundariesOfProgramsTest extends Boundaries {
     }
 
     private static void found() {
-        sentence(6, "When an end is found: X becomes it, Y its value, Z a, T b (the ends as they are then); LIFT is on, there "
-            + "is no entry, and it is over.");
+        sentence(6, "When an end is found: X becomes it, Y its value, Z a, T b (the ends as they are then); LIFT is "
+            + "on, there is no entry, and it is over.");
         TwinEntry t = solved("5=9", 128, "C0", 0);
         due("X, Y, Z, T", stack(t), " 5 0 5 5 0");
         due("LIFT", t.state(8), 1);
@@ -565,8 +566,8 @@ public final class BoundariesOfProgramsTest extends Boundaries {
     }
 
     private static void solverFails() {
-        sentence(6, "When it fails, by any fault, it is over, and all numbers, registers, LIFT, row, place and entry are as "
-            + "they were before it began.");
+        sentence(6, "When it fails, by any fault, it is over, and all numbers, registers, LIFT, row, place and "
+            + "entry are as they were before it began.");
         String keys = "7k8l3S1=2";
         dueSolverFails(1, keys, 128, "kSl", 200);
         dueSolverFails(2, keys, 128, "kSl9E99S");

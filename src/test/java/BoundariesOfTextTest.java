@@ -41,7 +41,8 @@ public final class BoundariesOfTextTest extends Boundaries {
     }
 
     private static void fullText() {
-        sentence(13, "The keys in the eight bytes of a long, the lowest first, bytes 0 left out, come behind the text.");
+        sentence(13, "The keys in the eight bytes of a long, the lowest first, bytes 0 left out, come behind the "
+            + "text.");
         TwinEntry t = new TwinEntry();
         due("no key", t.type(0), 0);
         due("eight keys", t.type(pack("12+34*56")), 8);
@@ -100,8 +101,8 @@ public final class BoundariesOfTextTest extends Boundaries {
     }
 
     private static void asTheyAre() {
-        sentence(15, "The row of things, the place and whether there is an entry go as in the formula model. To OUT come: entry "
-            + "keys, a .. j, Q, S, I, N, as they are");
+        sentence(15, "The row of things, the place and whether there is an entry go as in the formula model. To OUT "
+            + "come: entry keys, a .. j, Q, S, I, N, as they are");
         dueOut("12.5NE34N+a", "12.5NE34Na+");
         dueOut("jQSINNI", "jQSINNI");
         // An entry goes on behind its N, and has ended behind a bracket or a function.
@@ -117,8 +118,8 @@ public final class BoundariesOfTextTest extends Boundaries {
     }
 
     private static void separators() {
-        sentence(15, "but '=' before the key with which an entry begins, and W and W before N keyed without an entry, if the "
-            + "last of OUT is an entry key (N keyed without an entry is none)");
+        sentence(15, "but '=' before the key with which an entry begins, and W and W before N keyed without an "
+            + "entry, if the last of OUT is an entry key (N keyed without an entry is none)");
         dueOut("1+2", "1=2+");
         dueOut("1+.5", "1=.5+");
         dueOut("1+E", "1=E+");
@@ -179,14 +180,18 @@ public final class BoundariesOfTextTest extends Boundaries {
     }
 
     private static void outOfPlace() {
-        sentence(15, "5 it is out of place as in the formula model, or it is one of + - * / and the place is DONE, or Q, S, I or "
-            + "N (without an entry) and the place is not HAS, or it begins an entry or is a .. j and the place is HAS");
+        sentence(15, "5 it is out of place as in the formula model, or it is one of + - * / and the place is DONE, "
+            + "or Q, S, I or N (without an entry) and the place is not HAS, or it begins an entry or is a .. j and "
+            + "the place is HAS");
         for (String operation : new String[] {"+", "-", "*", "/"}) {
             dueRefusedBy(operation + "1", 5);
             dueRefusedBy("1+" + operation + "1", 5);
             dueRefusedBy("(" + operation + "1)", 5);
         }
-        for (String text : new String[] {"1(2)", "a(2)", "(1)(2)", "1Q(2)", ")", "()", "(1+)", "1)", "(1))", "1+2)", "1+=", "(="}) {
+        String[] asInFormulas = {
+            "1(2)", "a(2)", "(1)(2)", "1Q(2)", ")", "()", "(1+)", "1)", "(1))", "1+2)", "1+=", "(="
+        };
+        for (String text : asInFormulas) {
             dueRefusedBy(text, 5);
         }
         for (String key : new String[] {"Q", "S", "I", "N"}) {
@@ -208,8 +213,8 @@ public final class BoundariesOfTextTest extends Boundaries {
     }
 
     private static void tooMany() {
-        sentence(15, "6 the row would have more than 8 things, or there would be more than 4 VALUES: numbers in the row, and "
-            + "one more if the place is HAS, as they would be behind the key.");
+        sentence(15, "6 the row would have more than 8 things, or there would be more than 4 VALUES: numbers in the "
+            + "row, and one more if the place is HAS, as they would be behind the key.");
         dueOut("((((((((1))))))))", "1");
         dueRefusedBy("(((((((((1)))))))))", 6);
         dueRefusedBy("((((((((1+2))))))))", 6);
@@ -250,9 +255,12 @@ public final class BoundariesOfTextTest extends Boundaries {
     }
 
     private static void ends() {
-        sentence(15, "A text of which no key is refused is refused by 5 when its place at the end is not HAS (before an '=' at "
-            + "the end), or the row has an open bracket then.");
-        for (String text : new String[] {"", "=", "1+", "1+=", "(", "(1", "(1=", "1+(2", "1+(2=", "((1)", "((1)=", "(1+2)*", "(=" }) {
+        sentence(15, "A text of which no key is refused is refused by 5 when its place at the end is not HAS "
+            + "(before an '=' at the end), or the row has an open bracket then.");
+        String[] texts = {
+            "", "=", "1+", "1+=", "(", "(1", "(1=", "1+(2", "1+(2=", "((1)", "((1)=", "(1+2)*", "(="
+        };
+        for (String text : texts) {
             dueRefusedBy(text, 5);
         }
         dueOut("1", "1");
@@ -262,7 +270,8 @@ public final class BoundariesOfTextTest extends Boundaries {
     }
 
     private static void refused() {
-        sentence(15, "or it is refused, (the text stays in any case) OUT is empty then: less 0 by the code (-1, -5, -6).");
+        sentence(15, "or it is refused, (the text stays in any case) OUT is empty then: less 0 by the code (-1, -5, "
+            + "-6).");
         for (String more : new String[] {"x", "+", "=2", "+(3+(4+(5+6"}) {
             TwinEntry t = typed("1+2");
             due("keys of 1+2", t.translate(), 4);
@@ -271,6 +280,14 @@ public final class BoundariesOfTextTest extends Boundaries {
             dueThrow("OUT is empty behind " + more, INDEX, () -> t.out(0));
             due("the text stays", t.wipe(), 3 + more.length());
         }
+        TwinEntry entry = typed("1");
+        due("one key", entry.translate(), 1);
+        due("one key again: the OUT before does not count", entry.translate(), 1);
+        type(entry, ")");
+        due("refused", entry.translate(), -5);
+        entry.wipe();
+        type(entry, "2");
+        due("one key: nor does the text that was refused", entry.translate(), 1);
         TwinEntry t = typed("1+2");
         due("keys", t.translate(), 4);
         due("once more", t.translate(), 4);
@@ -301,11 +318,11 @@ public final class BoundariesOfTextTest extends Boundaries {
     }
 
     private static void sameAsTheFormula() {
-        sentence(15, "OUT, a row of keys by which the stack model, when LIFT is on, comes to the same X as the formula model by "
-            + "the text.");
+        sentence(15, "OUT, a row of keys by which the stack model, when LIFT is on, comes to the same X as the "
+            + "formula model by the text.");
         String[] texts = {
-            "1+(2-(3/7))", "a-(b-(a-b))", "(1)N-(2)N", "((2N)N)Q", "1E5N+(E)N", ".+(.)N", "8-(2)N*(3)N/(4)N", "2S-(3Q)S-1I",
-            "123456789012345/(a-b*3)", "(1+2)N-(1+2)N", "1..5-..5", "(a)N*(b)N"
+            "1+(2-(3/7))", "a-(b-(a-b))", "(1)N-(2)N", "((2N)N)Q", "1E5N+(E)N", ".+(.)N", "8-(2)N*(3)N/(4)N",
+            "2S-(3Q)S-1I", "123456789012345/(a-b*3)", "(1+2)N-(1+2)N", "1..5-..5", "(a)N*(b)N"
         };
         for (String text : texts) {
             TwinEntry t = keyed("7k3l");
