@@ -124,7 +124,7 @@ abstract class Boundaries extends Checks {
         if (t.state(5) > 0) {
             seen.append(" row ").append(press(t, "1=")).append(number(t, X));
         }
-        while (t.undo()) {
+        for (int i = 0; i < 10 && t.undo(); i++) {
             seen.append(" undo ").append(visible(t)).append(line(t));
         }
         int count = t.translate();
